@@ -630,7 +630,7 @@ public final class VotedFor {
         int named(int set) {
             int bits = 0;
             for (int h = 0; h < heldCount; h++) {
-                if ((set >> h & 1) != 0) bits |= held[h].boxes();
+                if ((set >> h & 1) != 0) bits |= held[h].boxBits();
             }
             return bits;
         }
@@ -798,7 +798,7 @@ public final class VotedFor {
             return sort > 1;
         }
 
-        int boxes() {
+        int boxBits() {
             return isOfTwo() ? 1 << box | 1 << other : 1 << box;
         }
     }

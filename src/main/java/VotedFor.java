@@ -918,11 +918,10 @@ public final class VotedFor {
             return all;
         }
 
-        /** In how many ways r are taken from a, b and c; what they leave is the other group. */
+        /** In how many ways r, at most all, are taken from a, b and c; what they leave is the other group. */
         private static long oneOfTwo(int r, int a, int b, int c) {
             long all = threes(r) - threes(r - a - 1) - threes(r - b - 1) - threes(r - c - 1);
-            all += threes(r - a - b - 2) + threes(r - a - c - 2) + threes(r - b - c - 2);
-            return all - threes(r - a - b - c - 3);
+            return all + threes(r - a - b - 2) + threes(r - a - c - 2) + threes(r - b - c - 2);
         }
 
         /** In how many ways r is the sum of three numbers. */

@@ -56,6 +56,12 @@ public final class OracleTest {
             for (int p = 0; p < g * c; p++) cells[p] = x.table(0, i, 10 * (p / c) + p % c);
             check("big table of " + Text.of(g, c, List.of(sums)), rank.of(cells), i);
         }
+        for (int t = 0; t < 5; t++) {
+            long seed = dice.bits();
+            long drawn = ((seed * 6364136223846793005L + 1442695040888963407L) >>> 20) % all;
+            int cell = 10 * dice.upTo(g - 1) + dice.upTo(c - 1);
+            check("big drawn", x.drawn(0, seed, cell), x.table(0, drawn, cell));
+        }
         check("big table behind the last", x.table(0, all, 0), -1);
         check("big table below 0", x.table(0, -1, 0), -1);
     }

@@ -184,12 +184,12 @@ public final class PromisesTest {
             "g2c22", "g2c2;", "g2c2;;", "g2c2;,", "g2c2;-1", "g2c2;1", "g2c2;12", "g2c2;123", "g2c2;1/", "g2c2;1;",
             "g2c2;1,", "g2c2;1,,", "g2c2;1,2", "g2c2;1,2,", "g2c2;1,2/", "g2c2;1,2/3", "g2c2;1,2/3/", "g2c2;1,2/3,",
             "g2c2;1,2/3,0,", "g2c2;1,2/3,000", "g2c2;1,2/3,0;", "g2c2;1,2/3,0/", "g2c2;1,2/3,0 ", "g2c2;1,1/1,2x",
-            "g3c2;1,1/", "g4c3;1,2,3,4/5,5;", "g4c3;1,2,3,4/5,5,0,"};
+            "g3c2;1,1/", "g4c3;1,2,3,4/5,5;", "g4c3;1,2,3,4/5,5,0,", "g2c2;/", "g2c2;:", "g2c2;1:", "g2c2;1,/"};
         int[] places = {0, 0, 0, 0, 1, 1, 1, 1, 2, 2, 3, 3, 3, 4,
             4, 5, 5, 5, 5, 6, 7, 7, 6, 6,
             7, 7, 8, 8, 9, 10, 10, 11,
             12, 13, 13, 12, 12, 12,
-            8, 16, 18};
+            8, 16, 18, 5, 5, 6, 7};
         for (int t = 0; t < texts.length; t++) fault(texts[t], places[t]);
         String twelve = "g2c2" + ";0,0/0,0".repeat(12);
         fault(twelve + ";0,0/0,0", 100);
@@ -198,6 +198,12 @@ public final class PromisesTest {
         due("of(0, 2)", x.of(0, 2), 12);
         due("sum(100, 0)", x.sum(100, 0), 1);
         due("sum(200, 20)", x.sum(200, 20), 297);
+        String longer = "g2c2;1,1/1,1";
+        for (int end = 0; end < longer.length(); end++) {
+            VotedFor y = with(longer);
+            int due = end == 4 ? 1 : -100 - end;
+            due("a text that ends at " + end + ", behind a longer one", tell(y, longer.substring(0, end)), due);
+        }
     }
 
     private static void matterUneven() {
@@ -292,6 +298,16 @@ public final class PromisesTest {
         for (long i : new long[] {-1, 4, 1L << 32, Long.MAX_VALUE, Long.MIN_VALUE}) due("table(0, " + i + ", 0)", x.table(0, i, 0), BAD);
         for (int cell : new int[] {-1, 2, 9, 12, 20, 100, MAX, MIN}) due("table(0, 0, " + cell + ")", x.table(0, 0, cell), BAD);
         for (int at : new int[] {-1, 4, 101, 200}) due("table(" + at + ", 0, 0)", x.table(at, 0, 0), BAD);
+        VotedFor y = with("g4c3;75,74,74,74/99,99,99");
+        due("many(0)", y.many(0), 9005636100L);
+        int[] first = {0, 0, 75, 0, 50, 24, 25, 49, 0, 74, 0, 0};
+        int[] last = {75, 0, 0, 24, 50, 0, 0, 49, 25, 0, 0, 74};
+        for (int p = 0; p < 12; p++) {
+            int cell = 10 * (p / 3) + p % 3;
+            due("the first table, " + cell, y.table(0, 0, cell), first[p]);
+            due("the last table, " + cell, y.table(0, 9005636099L, cell), last[p]);
+            due("behind the last table, " + cell, y.table(0, 9005636100L, cell), BAD);
+        }
     }
 
     private static void drawn() {
@@ -360,6 +376,12 @@ public final class PromisesTest {
         due("of none", x.may(0, 1, 0), -13);
         x.row(1, 2, 3);
         due("of three", x.may(0, 1, 0), -13);
+        VotedFor y = with("g4c3;0,0,0,0/0,0,0");
+        y.row(0, 2, 11);
+        due("of eleven", y.may(0, 0, 0), -13);
+        y.row(0, 2, 13);
+        due("of thirteen", y.may(0, 0, 1), NOT);
+        due("of thirteen, from place 2", y.may(0, 0, 2), -13);
     }
 
     private static void open() {
@@ -374,7 +396,10 @@ public final class PromisesTest {
         due("out of the row", x.open(0, 0, 2), -13);
         due("below the row", x.open(0, 0, -1), -13);
         due("no table of it", x.open(0, 0, 0), NOT);
-        due("first cell wrong", x.open(3, 0, 1), NOT);
+        due("of another box", x.open(3, 0, 1), NOT);
+        rowOf(x, 0, 2, -1, 6, 5, -2);
+        due("its first cell below 0", x.open(0, 0, 0), NOT);
+        rowOf(x, 0, 2, 0, 2, 3, 2, 1);
         due("count(3)", x.count(3), 0);
         due("its table", x.open(0, 0, 1), 1);
         due("count(3)", x.count(3), 1);
@@ -495,6 +520,9 @@ public final class PromisesTest {
         due("opens(2, 0, 3) with one opened", x.opens(2, 0, 3), 0);
         due("opens(2, 0, 1)", x.opens(2, 0, 1), 1);
         due("opens(2, 0, 0)", x.opens(2, 0, 0), 2);
+        VotedFor y = with("g2c2;1,1/1,1;4,4/4,4;1,1/1,1");
+        int[] till = {3, 2, 1, 1, 1, 1, 0};
+        for (int v = 0; v < 7; v++) due("opens, widest first, till " + v, y.opens(0, 0, v), till[v]);
         for (int v : new int[] {-1, 10000, MAX, MIN}) due("opens(0, 0, " + v + ")", x.opens(0, 0, v), BAD);
         for (int cell : new int[] {-1, 2, 20}) due("opens(0, " + cell + ", 0)", x.opens(0, cell, 0), BAD);
         for (int m : new int[] {-1, 3}) due("opens(" + m + ", 0, 0)", x.opens(m, 0, 0), BAD);
@@ -795,6 +823,16 @@ public final class PromisesTest {
         due("667 is what 2 of 3 are, cut up", z.wrong(0, -1), 4);
         due("the first", z.wrong(0, 0), 3);
         due("the fourth", z.wrong(0, 3), 6);
+        VotedFor w = with("g2c2;0,1/0,1;25,0/17,8;87,0/59,28", "g2c2;0,1/0,1;50,0/33,17;74,0/49,25",
+            "g2c2;0,1/0,1;27,0/1,26;76,0/3,73");
+        int[] says = {679, 661, 38};
+        int[] howMany = {1, 2, 1};
+        int[] first = {1, 1, 2};
+        for (int m = 0; m < 3; m++) {
+            due("line(" + m + ", 1000)", w.line(m, 1000), says[m]);
+            due("one off, wrong(" + m + ", -1)", w.wrong(m, -1), howMany[m]);
+            due("one off, wrong(" + m + ", 0)", w.wrong(m, 0), first[m]);
+        }
     }
 
     // ---- two votes, years, parts
@@ -822,9 +860,13 @@ public final class PromisesTest {
         due("second(100, 4000)", x.second(100, badOfThree[2]), 1);
         for (int b : new int[] {1, 3, 4}) due("second(100, " + badOfThree[b] + ")", x.second(100, badOfThree[b]), BAD);
         for (int at : new int[] {-1, 4, 101, 200, MIN}) due("second(" + at + ", 8)", x.second(at, 8), BAD);
-        VotedFor y = with("g2c2;0,0/0,0");
+        VotedFor y = with("g2c2;0,0/0,0", "g2c3;5,5/3,3,4");
         due("second(0, 0)", y.second(0, 0), 1);
         due("splits(0, 1)", y.splits(0, 1), 0);
+        due("second(100, 5003002)", y.second(100, 5003002), 1);
+        due("CHOICE 0 is the highest digit", y.split(100, 20, 1), 4);
+        due("CHOICE 1", y.split(100, 21, 1), 3);
+        due("CHOICE 2", y.split(100, 22, 1), 2);
     }
 
     private static void split() {

@@ -733,7 +733,7 @@ public final class VotedFor {
             return says < least || says > most;
         }
 
-        /** Whether sums as digits base 1000 are a second vote of as many; the highest digit may not run over. */
+        /** Whether sums as digits base 1000 are a second vote of as many: a highest digit above 999 never is. */
         boolean tellLater(long sums) {
             long rest = sums;
             long all = 0;
@@ -741,7 +741,7 @@ public final class VotedFor {
                 all += rest % 1000;
                 rest /= 1000;
             }
-            if (rest > 999 || all + rest != votes) return false;
+            if (all + rest != votes) return false;
             rest = sums;
             for (int k = of.choices - 1; k >= 0; k--) {
                 later[k] = (int) (rest % 1000);
@@ -808,10 +808,14 @@ public final class VotedFor {
         final int[] cells = new int[PLACES];
         private final int[] groupLeft = new int[GROUPS];
         private final int[] choiceLeft = new int[CHOICES];
+        private int places;
 
+        /** Places behind the last cell of the matter stay 0 and are not gone through. */
         private void empty(Box box) {
             System.arraycopy(box.byGroup, 0, groupLeft, 0, GROUPS);
             System.arraycopy(box.byChoice, 0, choiceLeft, 0, CHOICES);
+            places = (box.of.groups - 1) * CHOICES + box.of.choices;
+            for (int p = places; p < PLACES; p++) cells[p] = 0;
         }
 
         void start(Box box) {
@@ -821,7 +825,7 @@ public final class VotedFor {
 
         /** Whether there was a next table to go to. */
         boolean advance() {
-            for (int p = PLACES - 1; p >= 0; p--) {
+            for (int p = places - 1; p >= 0; p--) {
                 int v = cells[p] + 1;
                 set(p, -cells[p]);
                 if (v > room(p)) continue;
@@ -835,7 +839,7 @@ public final class VotedFor {
 
         /** Each cell gets the least with which the later choices can still take the rest of its group. */
         private void fillFrom(int place) {
-            for (int p = place; p < PLACES; p++) {
+            for (int p = place; p < places; p++) {
                 int least = groupLeft[p / CHOICES];
                 for (int l = p % CHOICES + 1; l < CHOICES; l++) least -= choiceLeft[l];
                 cells[p] = Math.max(0, least);
@@ -855,7 +859,7 @@ public final class VotedFor {
         void goTo(Box box, long i) {
             empty(box);
             long left = i;
-            for (int p = 0; p < PLACES; p++) {
+            for (int p = 0; p < places; p++) {
                 int v = p % CHOICES == CHOICES - 1 ? groupLeft[p / CHOICES] : valueAt(p, left);
                 if (p % CHOICES < CHOICES - 1 && v > 0) left -= waysFrom(p, 0) - waysFrom(p, v);
                 cells[p] = v;

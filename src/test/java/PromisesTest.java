@@ -35,9 +35,11 @@ public final class PromisesTest {
         opens();
         hold();
         holdOrder();
+        holdOther();
         by();
         byBig();
         byOpened();
+        allHeld();
         none();
         noneBig();
         claim();
@@ -570,6 +572,45 @@ public final class PromisesTest {
         }
     }
 
+    /** Rows go through all boxes of a matter, and sets through all things held. */
+    private static void allHeld() {
+        promise = "17, 18, 20 all boxes, all things held";
+        VotedFor x = with("g2c2" + ";1,1/1,1".repeat(12), "g2c2" + ";1,1/1,1".repeat(7), "g2c2" + ";1,1/1,1".repeat(8));
+        for (int b = 0; b < 12; b += 2) due("hold", x.hold(0, 2, 0, 100 * b + b + 1, 0), b / 2);
+        due("hold", x.hold(0, 1, 0, 0, 1), 6);
+        due("hold", x.hold(0, 0, 11, 1100, 0), 7);
+        due("least by all boxes", x.by(0, 255, 0, 0), 2);
+        due("most by all boxes", x.by(0, 255, 0, 1), 10);
+        due("must(0, 255, 0, 2)", x.must(0, 255, 0, 2), 65);
+        x.hold(1, 1, 0, 0, 1);
+        for (int b = 0; b < 6; b++) x.hold(1, 3, 0, 100 * b + b + 1, 0);
+        x.hold(1, 0, 0, 600, 0);
+        due("none but by all eight", x.none(1, 255), 255);
+        due("by seven", x.none(1, 254), NOT);
+        due("by seven", x.by(1, 127, 0, 0), 7);
+        x.hold(2, 1, 0, 0, 1);
+        for (int b = 0; b < 7; b++) x.hold(2, 3, 0, 100 * b + b + 1, 0);
+        due("follows but by all eight", x.must(2, 255, 0, 8), 255);
+        due("by seven", x.must(2, 255, 0, 7), 127);
+        due("by six", x.must(2, 63, 0, 6), 63);
+        due("by none of them", x.must(2, 254, 0, 1), NOT);
+    }
+
+    private static void holdOther() {
+        promise = "16 hold, the other box told of sorts 0 and 1";
+        VotedFor x = with("g2c2;9,9/9,9;3,3/3,3;2,2/2,2");
+        x.hold(0, 1, 0, 99, 9);
+        x.hold(0, 0, 0, 199, 0);
+        x.hold(0, 1, 0, 201, 2);
+        x.hold(0, 1, 0, 2, 9);
+        int[] least = {9, 0, 2, 9};
+        int[] most = {14, 11, 14, 14};
+        for (int h = 0; h < 4; h++) {
+            due("by(0, " + (1 << h) + ", 0, 0)", x.by(0, 1 << h, 0, 0), least[h]);
+            due("by(0, " + (1 << h) + ", 0, 1)", x.by(0, 1 << h, 0, 1), most[h]);
+        }
+    }
+
     private static VotedFor heldOfFour() {
         VotedFor x = with(FOUR);
         x.hold(0, 0, 0, 0, 2);
@@ -1069,6 +1110,10 @@ public final class PromisesTest {
         due("the 51st", x.knowing(1), FULL);
         due("BAD ahead of FULL", x.knowing(7), BAD);
         due("count(4)", x.count(4), 50);
+        due("act(49, 2, 0)", x.act(49, 2, 0), 49);
+        due("act(50, 2, 0)", x.act(50, 2, 0), 0);
+        due("keep(0, 49)", x.keep(0, 49), 1);
+        due("keep(0, 50)", x.keep(0, 50), BAD);
     }
 
     private static void act() {

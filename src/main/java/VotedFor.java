@@ -1227,7 +1227,7 @@ public final class VotedFor {
             return false;
         }
 
-        int lets(int from, int x) {
+        private int lets(int from, int x) {
             if (from == TWICE) {
                 ran.begin(60);
                 return lets(ENDS, x + 1) * 2;
@@ -1240,7 +1240,7 @@ public final class VotedFor {
             return x + number;
         }
 
-        int narrows(int from, int x) {
+        private int narrows(int from, int x) {
             if (from == NESTED) {
                 ran.begin(50);
                 return -narrows(ENDS, x);
@@ -1253,7 +1253,7 @@ public final class VotedFor {
             return lets(kind, x) * 2;
         }
 
-        int proves(int from, int x) {
+        private int proves(int from, int x) {
             if (from == TOLD) {
                 ran.begin(70);
                 return proves(ABOVE[TOLD], x) - narrows(kind, 1);
@@ -1266,7 +1266,7 @@ public final class VotedFor {
             return x ^ number;
         }
 
-        int tells(int from, int x) {
+        private int tells(int from, int x) {
             if (from == TOLD) {
                 ran.begin(71);
                 return tells(ABOVE[TOLD], x) * 2;

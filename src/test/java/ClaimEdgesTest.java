@@ -132,6 +132,10 @@ public final class ClaimEdgesTest {
         s.says("the set of none: the ends in all", FOUR, "by(0, 0, 0, 0) = 7 | by(0, 0, 0, 1) = 12");
         s.says("the set of all eight", FOUR, "7 times hold(0, 0, 0, 0, 4) | hold(0, 0, 0, 0, 2) | by(0, 255, 0, 1) = 10 | by(0, 127, 0, 1) = 12");
         s.says("the eighth alone", FOUR, "7 times hold(0, 0, 0, 0, 0) | hold(0, 0, 0, 0, 2) | by(0, 128, 0, 1) = 10");
+        s.says("all twelve boxes are named", "told g2c2" + ";1,1/1,1".repeat(12),
+            "hold(0, 2, 0, 1, 0) | hold(0, 2, 0, 203, 0) | hold(0, 2, 0, 405, 0) | hold(0, 2, 0, 607, 0) | hold(0, 2, 0, 809, 0)",
+            "hold(0, 2, 0, 1011, 0) | hold(0, 1, 0, 0, 1) | hold(0, 0, 11, 1100, 0) | by(0, 255, 0, 0) = 2 | by(0, 255, 0, 1) = 10",
+            "must(0, 255, 0, 2) = 65 | none(0, 255) = NOT | claim(0, 255, 0, 2) = 2 | claim(0, 255, 0, 11) = 0");
         s.says("no boxes, no set", "told g2c2 | by(0, 0, 0, 0) = 0 | by(0, 0, 11, 1) = 0");
         s.says("the first of a set alone", FOUR, "hold(0, 0, 0, 0, 2) | hold(0, 0, 0, 0, 3) | by(0, 1, 0, 1) = 10 | by(0, 2, 0, 1) = 11");
         s.says("another cell than that held", FOUR, "hold(0, 0, 0, 0, 2) | by(0, 1, 10, 0) = 4 | by(0, 1, 10, 1) = 7");
@@ -323,8 +327,12 @@ public final class ClaimEdgesTest {
             "line(0, 1000) = 667 | wrong(0, -1) = 1 | wrong(0, 0) = 3");
         s.says("one above the most, cut up: 668 of 2 of 3", "told g2c2;0,1/0,1;3,0/2,1;97,0/65,32",
             "line(0, 1000) = 668 | wrong(0, -1) = 2 | wrong(0, 0) = 1 | wrong(0, 1) = 2");
+        s.says("one below the least: 999 of all", "told g2c2;0,1/0,1" + ";1,0/1,0".repeat(10) + ";99,0/98,1",
+            "line(0, 1000) = 999 | wrong(0, -1) = 11 | wrong(0, 0) = 1 | wrong(0, 10) = 11");
         s.says("what is whole is not cut up", "told g2c2;0,1/0,1;2,0/1,1;2,0/1,1;2,0/1,1;97,0/49,48",
             "line(0, 1000) = 501 | wrong(0, -1) = 4 | wrong(0, 3) = 4");
+        s.says("by what the line says at 1000, not at the box's x",
+            "told g2c2;0,1/0,1;1,1/2,0 | line(0, 500) = 1000 | line(0, 1000) = 2000 | wrong(0, -1) = 1 | wrong(0, 0) = 1");
         s.says("not where group 0 is not there", "told g2c2;0,1/0,1;9,0/9,0;0,7/7,0 | line(0, 1000) = 1000 | wrong(0, -1) = 0");
         s.says("all twelve", "told g2c2" + ";1,0/1,0;1,0/0,1".repeat(5) + ";1,0/1,0;0,1/1,0", "line(0, 1000) = 545 | wrong(0, -1) = 11 | wrong(0, 10) = 10 | wrong(0, 11) = BAD");
         s.says("what is opened", FOUR, "row 0 2: 1 4 3 0 | open(0, 0, 0) = 1 | wrong(0, -1) = 2 | wrong(0, 0) = 0 | wrong(0, 1) = 3 | wrong(0, 2) = BAD");
@@ -469,6 +477,7 @@ public final class ClaimEdgesTest {
         s.says("what 1: by one", FOUR, "weight(0, 0, 1) | weighs(0, 1) = 1");
         s.says("NOT: all have one", FOUR, "weighs(0, 1) = NOT | weight(0, 0, 1) | weight(0, 10, 1) | weighs(0, 1) = NOT");
         s.says("NOT: there is but one", FOUR, "weight(0, 0, 9) | weighs(3, 1) = NOT | weighs(3, 0) = 54");
+        s.says("NOT: behind one that has a next", FOUR, "weight(0, 0, 9) | weighs(0, 1) = 9 | weighs(3, 1) = NOT | weighs(0, 1) = 9");
         s.says("next to the greatest, not like it", "told g3c3;1,1,1/1,1,1 | weight(0, 0, 7)", "weighs(0, 0) = 7 | weighs(0, 1) = 7");
         s.says("next to the greatest, not the least", FOUR, "weight(0, 0, 1) | weighs(0, 0) = 4 | weighs(0, 1) = 1");
         s.says("next to the greatest, where the first is", FOUR, "weight(0, 0, -1) | weighs(0, 0) = -1 | weighs(0, 1) = 1");
@@ -492,6 +501,10 @@ public final class ClaimEdgesTest {
         s.says("one more than the least", FOUR, "chance(0, 0, 2) = 750");
         s.says("just the most that it can be", FOUR, "chance(0, 0, 4) = 250");
         s.says("one more than the most", FOUR, "chance(0, 0, 5) = 0");
+        s.says("more than its group, not more than its choice",
+            "told g2c2;1,40/30,11;40,1/30,11 | chance(0, 0, 2) = 0 | chance(0, 0, 20) = 0 | chance(1, 10, 2) = 0 | chance(1, 10, 20) = 0");
+        s.says("more than its choice, not more than its group",
+            "told g2c3;40,10/1,30,19;40,10/30,19,1 | chance(0, 0, 2) = 0 | chance(0, 0, 20) = 0 | chance(1, 2, 2) = 0 | chance(1, 2, 20) = 0");
         s.says("cut: 1 of 3, 2 of 3", FOUR, "chance(1, 0, 2) = 333 | chance(1, 0, 1) = 666");
         s.says("of one table", FOUR, "chance(3, 0, 6) = 1000 | chance(3, 0, 7) = 0");
         s.says("of no people", "told g2c2;0,0/0,0 | chance(0, 0, 0) = 1000 | chance(0, 0, 1) = 0");

@@ -24,10 +24,11 @@ public final class LanguageTest {
         + "chance(int,int,int)int knowing(int)int act(int,int,int)int trace(int)int keep(int,int)int row(int,int,int)int "
         + "put(int,int,long)int element(int,int)long shift(int,int,int,int,int)int taken(int,int)int "
         + "boxes(int,int,int,int)int count(int)int";
-    private static final String[] BANNED = {"\\bimport\\b", "\\bpackage\\b", "->", "::", "Exact\\b", "\\bthrow\\b",
-        "\\bthrows\\b", "\\btry\\b", "\\bcatch\\b", "\\bfinally\\b", "\\bsynchronized\\b", "\\bassert\\b",
-        "\\brecord\\b", "\\bSystem\\.(?!arraycopy)", "\\bjava\\.", "\\b(hashCode|toString|equals)\\b", "\\bvolatile\\b",
-        "\\bnative\\b", "\\bdouble\\b", "\\bfloat\\b", "\\[\\]\\s*\\[\\]", "\\bthis::", "\"", "\\bObject\\b"};
+    private static final String[] BANNED = {"\\bpackage\\b", "::", "\\w+Exact\\b", "\\bfinally\\b", "\\bsynchronized\\b",
+        "\\bassert\\b", "\\bSystem\\.(?!arraycopy)", "\\bhashCode\\b", "\\bvolatile\\b", "\\bnative\\b", "\\btransient\\b",
+        "\\b(Object|Number|Long\\.valueOf|Random|Thread|Runtime|Map|HashMap|Set|HashSet)\\b", "\\bgetMessage\\b",
+        "\\bimport (?!java\\.util\\.(ArrayList|List|Arrays|Iterator|NoSuchElementException);)", "\\btry *\\(",
+        "(?<!\\bimport )\\bjava\\.", "\\b(NullPointer|ArrayIndexOutOfBounds|ClassCast|NegativeArraySize|ArrayStore)Exception\\b"};
     private static int wrong;
 
     public static void main(String[] args) throws IOException {
@@ -114,7 +115,7 @@ public final class LanguageTest {
         }
         int lines = 0;
         for (String line : text.split("\n")) {
-            due(line.length() <= 120, "a line of " + line.length() + " signs: " + line);
+            if (line.contains("->")) due(line.matches(".*\\b(case\\b.*|default *)->.*"), "a lambda: " + line);
             boolean begins = line.matches("( {4}| {8})(public|private|static|void|int|long|boolean|[A-Z]\\w*)\\b.*\\{");
             lines = begins && !line.contains(" class ") ? 0 : lines + 1;
             if (line.matches("( {4}| {8})\\}")) due(lines <= 60, "a method of " + lines + " lines ends in " + line);

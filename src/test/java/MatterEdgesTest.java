@@ -272,6 +272,9 @@ public final class MatterEdgesTest {
         s.says("the other boxes are not opened", row, "open(0, 0, 1) = 1 | ends(1, 0, 0) = 0 | ends(1, 0, 1) = 2 | next(0, 0) = 1");
         s.says("the last box", FOUR, "row 0 2: 6 3 0 0 | open(3, 0, 0) = 1 | count(3) = 1");
         s.says("a box of no people", "told g2c2;0,0/0,0 | row(0, 2, 4) | open(0, 0, 0) = 1 | open(0, 0, 0) = STATE");
+        s.says("from the last places of the longest row", FOUR, "row(5, 2, 60) | put(5, 58, 1) | put(5, 59, 3) | open(2, 5, 57) = -13 | open(2, 5, 56) = 1 | count(3) = 1");
+        s.says("all cells of four groups and three choices", "told g4c3;1,2,3,4/4,3,3 | row 0 2: 1 0 0 1 1 0 2 0 1 0 2 2 | open(0, 0, 0) = 1",
+            "ends(0, 0, 0) = 1 | ends(0, 12, 1) = 0 | ends(0, 20, 1) = 2 | ends(0, 22, 1) = 1 | ends(0, 31, 0) = 2 | ends(0, 32, 1) = 2");
         s.says("of like boxes the one that is named", "told g2c2;1,1/1,1;1,1/1,1 | row 0 2: 1 0 0 1",
             "open(1, 0, 0) = 1 | ends(0, 0, 0) = 0 | ends(1, 0, 0) = 1 | open(0, 0, 0) = 1 | count(3) = 2");
     }

@@ -247,7 +247,7 @@ public final class TermEdgesTest {
         s.says("just the most, cut up", "told g2c2;0,1/0,1;3,0/2,1;3,0/2,1;97,0/65,32 | line(0, 1000) = 667 | wrong(0, 0) = 3");
         s.says("where group 0 is there: one of it", "told g2c2;1,0/0,1;0,1/0,1;1,0/1,0 | line(0, 1000) = 500 | wrong(0, -1) = 2 | wrong(0, 1) = 2");
         s.says("not where it is not there", "told g2c2;0,1/0,1;1,0/1,0 | line(0, 1000) = 1000 | wrong(0, -1) = 0");
-        s.says("at x 1000, not at the box's x", "told g2c2;0,9/0,9;3,1/3,1 | line(0, 1000) = 1000 | line(0, 750) = 750 | wrong(0, -1) = 0");
+        s.says("at x 1000, not at the box's x", "told g2c2;0,1/0,1;1,1/2,0 | line(0, 500) = 1000 | line(0, 1000) = 2000 | wrong(0, -1) = 1");
     }
 
     private static void drawn() {

@@ -70,16 +70,22 @@ public final class ClaimEdgesTest {
 
     private static void hold() {
         s.promise("16 hold, its number");
-        s.says("the first is 0, the last is 7", FOUR, "hold(0, 0, 0, 0, 4) = 0 | 6 times hold(0, 0, 0, 0, 4) | hold(0, 3, 11, 302, 1) = 7");
-        s.says("each matter's own", FOUR, "told g2c2;1,1/1,1 | hold(0, 0, 0, 0, 4) = 0 | hold(1, 0, 0, 0, 4) = 0 | hold(0, 0, 0, 0, 4) = 1");
+        s.says("the first is 0, the last is 7",
+            FOUR, "hold(0, 0, 0, 0, 4) = 0 | 6 times hold(0, 0, 0, 0, 4) | hold(0, 3, 11, 302, 1) = 7");
+        s.says("each matter's own",
+            FOUR, "told g2c2;1,1/1,1 | hold(0, 0, 0, 0, 4) = 0 | hold(1, 0, 0, 0, 4) = 0 | hold(0, 0, 0, 0, 4) = 1");
         s.says("sort 0, the least, v 0, the least", FOUR, "hold(0, 0, 0, 0, 0) = 0 | by(0, 1, 0, 1) = NOT");
         s.says("sort 3, the greatest, v 999, the greatest", FOUR, "hold(0, 3, 0, 1, 999) = 0 | by(0, 1, 0, 1) = 12");
-        s.says("the last box", FOUR, "hold(0, 1, 0, 300, 6) = 0 | hold(0, 1, 0, 300, 7) = 1 | by(0, 1, 0, 0) = 7 | by(0, 2, 0, 0) = NOT");
+        s.says("the last box",
+            FOUR, "hold(0, 1, 0, 300, 6) = 0 | hold(0, 1, 0, 300, 7) = 1 | by(0, 1, 0, 0) = 7 | by(0, 2, 0, 0) = NOT");
         s.says("the twelfth box and the first", "told g2c2" + ";1,1/1,1".repeat(12),
-            "hold(0, 3, 0, 11, 0) = 0 | hold(0, 3, 0, 1100, 0) = 1 | hold(0, 1, 0, 1100, 1) = 2 | by(0, 5, 0, 0) = 1 | by(0, 6, 0, 0) = 2");
-        s.says("of sort 0 the other is any: the same", TWO, "hold(0, 0, 0, 0, 4) = 0 | hold(0, 0, 0, 101, 1) = 1 | by(0, 3, 0, 1) = 5");
+            "hold(0, 3, 0, 11, 0) = 0 | hold(0, 3, 0, 1100, 0) = 1 | hold(0, 1, 0, 1100, 1) = 2 | by(0, 5, 0, 0) = 1",
+            "by(0, 6, 0, 0) = 2");
+        s.says("of sort 0 the other is any: the same",
+            TWO, "hold(0, 0, 0, 0, 4) = 0 | hold(0, 0, 0, 101, 1) = 1 | by(0, 3, 0, 1) = 5");
         s.says("of sort 0 the other is any: none such", TWO, "hold(0, 0, 0, 99, 4) = 0 | by(0, 1, 0, 1) = 7");
-        s.says("of sort 1 the other is any: the same", TWO, "hold(0, 1, 0, 0, 4) = 0 | hold(0, 1, 0, 101, 1) = 1 | by(0, 3, 0, 0) = 5");
+        s.says("of sort 1 the other is any: the same",
+            TWO, "hold(0, 1, 0, 0, 4) = 0 | hold(0, 1, 0, 101, 1) = 1 | by(0, 3, 0, 0) = 5");
         s.says("of sort 1 the other is any: none such", TWO, "hold(0, 1, 0, 199, 2) = 0 | by(0, 1, 0, 0) = 2");
         s.says("the last cell of four groups and three choices", "told g4c3;1,1,1,1/1,1,2",
             "hold(0, 1, 32, 0, 1) = 0 | by(0, 1, 32, 0) = 1 | by(0, 0, 32, 0) = 0");
@@ -98,15 +104,19 @@ public final class ClaimEdgesTest {
         s.says("1, v at least: 0 lets all", TWO, "hold(0, 1, 0, 0, 0) | by(0, 1, 0, 0) = 0");
         s.says("2, differ by v at most: 0, alike", TWO, "hold(0, 2, 0, 1, 0) | by(0, 1, 0, 1) = 6 | by(0, 1, 0, 0) = 0");
         s.says("2, differ by v at most: just v above", TWO, "hold(0, 2, 0, 1, 1) | by(0, 1, 0, 1) = 7");
-        s.says("2, differ by v at most: just v below", TWO, "hold(0, 2, 0, 1, 1) | hold(0, 1, 0, 100, 3) | by(0, 3, 0, 0) = 5");
+        s.says("2, differ by v at most: just v below",
+            TWO, "hold(0, 2, 0, 1, 1) | hold(0, 1, 0, 100, 3) | by(0, 3, 0, 0) = 5");
         s.says("2, told from the other box, just v above", TWO, "hold(0, 2, 0, 100, 1) | by(0, 1, 0, 1) = 7");
-        s.says("2, told from the other box, just v below", TWO, "hold(0, 2, 0, 100, 1) | hold(0, 1, 0, 100, 3) | by(0, 3, 0, 0) = 5");
+        s.says("2, told from the other box, just v below",
+            TWO, "hold(0, 2, 0, 100, 1) | hold(0, 1, 0, 100, 3) | by(0, 3, 0, 0) = 5");
         s.says("3, no more than in another: alike", TWO, "hold(0, 3, 0, 1, 0) | by(0, 1, 0, 1) = 6");
         s.says("3, no more than in another and v: just v", TWO, "hold(0, 3, 0, 1, 2) | by(0, 1, 0, 1) = 8");
         s.says("3, however much less", TWO, "hold(0, 3, 0, 1, 0) | hold(0, 1, 0, 100, 3) | by(0, 3, 0, 0) = 3");
         s.says("3, told from the other box", TWO, "hold(0, 3, 0, 100, 0) | by(0, 1, 0, 1) = 12");
-        s.says("3, told from the other box, least", TWO, "hold(0, 3, 0, 100, 0) | hold(0, 1, 0, 100, 3) | by(0, 3, 0, 0) = 6");
-        s.says("3, told from the other box and v", TWO, "hold(0, 3, 0, 100, 1) | hold(0, 1, 0, 100, 3) | by(0, 3, 0, 0) = 5");
+        s.says("3, told from the other box, least",
+            TWO, "hold(0, 3, 0, 100, 0) | hold(0, 1, 0, 100, 3) | by(0, 3, 0, 0) = 6");
+        s.says("3, told from the other box and v",
+            TWO, "hold(0, 3, 0, 100, 1) | hold(0, 1, 0, 100, 3) | by(0, 3, 0, 0) = 5");
     }
 
     private static void byRefused() {
@@ -124,28 +134,37 @@ public final class ClaimEdgesTest {
         s.says("BAD ahead of BIG: what", MANY, "hold(0, 0, 0, 0, 5) | by(0, 1, 0, -1) = BAD");
         s.says("BAD ahead of BIG: a cell", MANY, "hold(0, 0, 0, 0, 5) | by(0, 1, 3, 0) = BAD");
         s.says("BAD ahead of BIG: a set", MANY, "hold(0, 0, 0, 0, 5) | by(0, 3, 0, 0) = BAD");
-        s.says("BIG ahead of NOT", MANY, "hold(0, 0, 0, 0, 5) | hold(0, 1, 0, 400, 2) | by(0, 2, 0, 0) = NOT | by(0, 3, 0, 0) = BIG");
+        s.says("BIG ahead of NOT",
+            MANY, "hold(0, 0, 0, 0, 5) | hold(0, 1, 0, 400, 2) | by(0, 2, 0, 0) = NOT | by(0, 3, 0, 0) = BIG");
     }
 
     private static void by() {
         s.promise("17 by, ends in all by a set");
         s.says("the set of none: the ends in all", FOUR, "by(0, 0, 0, 0) = 7 | by(0, 0, 0, 1) = 12");
-        s.says("the set of all eight", FOUR, "7 times hold(0, 0, 0, 0, 4) | hold(0, 0, 0, 0, 2) | by(0, 255, 0, 1) = 10 | by(0, 127, 0, 1) = 12");
+        s.says("the set of all eight",
+            FOUR, "7 times hold(0, 0, 0, 0, 4) | hold(0, 0, 0, 0, 2) | by(0, 255, 0, 1) = 10 | by(0, 127, 0, 1) = 12");
         s.says("the eighth alone", FOUR, "7 times hold(0, 0, 0, 0, 0) | hold(0, 0, 0, 0, 2) | by(0, 128, 0, 1) = 10");
         s.says("all twelve boxes are named", "told g2c2" + ";1,1/1,1".repeat(12),
-            "hold(0, 2, 0, 1, 0) | hold(0, 2, 0, 203, 0) | hold(0, 2, 0, 405, 0) | hold(0, 2, 0, 607, 0) | hold(0, 2, 0, 809, 0)",
-            "hold(0, 2, 0, 1011, 0) | hold(0, 1, 0, 0, 1) | hold(0, 0, 11, 1100, 0) | by(0, 255, 0, 0) = 2 | by(0, 255, 0, 1) = 10",
+            "hold(0, 2, 0, 1, 0) | hold(0, 2, 0, 203, 0) | hold(0, 2, 0, 405, 0) | hold(0, 2, 0, 607, 0)",
+            "hold(0, 2, 0, 809, 0)",
+            "hold(0, 2, 0, 1011, 0) | hold(0, 1, 0, 0, 1) | hold(0, 0, 11, 1100, 0) | by(0, 255, 0, 0) = 2",
+            "by(0, 255, 0, 1) = 10",
             "must(0, 255, 0, 2) = 65 | none(0, 255) = NOT | claim(0, 255, 0, 2) = 2 | claim(0, 255, 0, 11) = 0");
         s.says("no boxes, no set", "told g2c2 | by(0, 0, 0, 0) = 0 | by(0, 0, 11, 1) = 0");
-        s.says("the first of a set alone", FOUR, "hold(0, 0, 0, 0, 2) | hold(0, 0, 0, 0, 3) | by(0, 1, 0, 1) = 10 | by(0, 2, 0, 1) = 11");
+        s.says("the first of a set alone",
+            FOUR, "hold(0, 0, 0, 0, 2) | hold(0, 0, 0, 0, 3) | by(0, 1, 0, 1) = 10 | by(0, 2, 0, 1) = 11");
         s.says("another cell than that held", FOUR, "hold(0, 0, 0, 0, 2) | by(0, 1, 10, 0) = 4 | by(0, 1, 10, 1) = 7");
-        s.says("boxes that the set does not name are by their ends", TWO, "hold(0, 1, 0, 0, 9) | by(0, 1, 0, 0) = 9 | by(0, 1, 0, 1) = 12");
+        s.says("boxes that the set does not name are by their ends",
+            TWO, "hold(0, 1, 0, 0, 9) | by(0, 1, 0, 0) = 9 | by(0, 1, 0, 1) = 12");
         String opened = FOUR + " | row 0 2: 3 2 1 2 | open(0, 0, 0) = 1";
-        s.says("an opened box is what it was seen to be: kept", opened, "hold(0, 0, 0, 0, 3) | by(0, 1, 0, 0) = 9 | by(0, 1, 0, 1) = 11");
+        s.says("an opened box is what it was seen to be: kept",
+            opened, "hold(0, 0, 0, 0, 3) | by(0, 1, 0, 0) = 9 | by(0, 1, 0, 1) = 11");
         s.says("an opened box is what it was seen to be: not kept", opened, "hold(0, 0, 0, 0, 2) | by(0, 1, 0, 0) = NOT");
-        s.says("an opened box that the set does not name", opened, "hold(0, 1, 0, 100, 1) | by(0, 1, 0, 0) = 10 | by(0, 1, 0, 1) = 11");
+        s.says("an opened box that the set does not name",
+            opened, "hold(0, 1, 0, 100, 1) | by(0, 1, 0, 0) = 10 | by(0, 1, 0, 1) = 11");
         s.says("an opened box and another", opened, "hold(0, 2, 0, 1, 1) | by(0, 1, 0, 0) = 11 | by(0, 1, 0, 1) = 11");
-        s.says("opened after it was held", FOUR, "hold(0, 0, 0, 0, 2) | by(0, 1, 0, 1) = 10 | row 0 2: 3 2 1 2 | open(0, 0, 0) = 1 | by(0, 1, 0, 1) = NOT");
+        s.says("opened after it was held",
+            FOUR, "hold(0, 0, 0, 0, 2) | by(0, 1, 0, 1) = 10 | row 0 2: 3 2 1 2 | open(0, 0, 0) = 1 | by(0, 1, 0, 1) = NOT");
     }
 
     private static void byBig() {
@@ -156,20 +175,25 @@ public final class ClaimEdgesTest {
         s.says("10001 times 2 are not", MANY, "hold(0, 2, 0, 204, 99) | by(0, 1, 0, 0) = BIG");
         s.says("each too few, but not the product", MANY, "hold(0, 0, 0, 300, 99) | hold(0, 0, 0, 200, 99)",
             "by(0, 1, 0, 0) = 0 | by(0, 2, 0, 0) = 0 | by(0, 3, 0, 0) = BIG");
-        s.says("the boxes that the set names alone", MANY, "hold(0, 0, 0, 400, 0) | hold(0, 0, 0, 0, 99) | by(0, 1, 0, 1) = 61");
+        s.says("the boxes that the set names alone",
+            MANY, "hold(0, 0, 0, 400, 0) | hold(0, 0, 0, 0, 99) | by(0, 1, 0, 1) = 61");
         s.says("a set of none is never BIG", MANY, "by(0, 0, 0, 0) = 0");
         s.says("the other box of sort 0 is not named", MANY, "hold(0, 0, 0, 400, 99) | by(0, 1, 0, 0) = 0");
         s.says("the other box of sort 1 is not named", MANY, "hold(0, 1, 0, 400, 1) | by(0, 1, 0, 0) = 1");
-        s.says("a box that is named twice counts once", MANY, "hold(0, 0, 0, 300, 99) | hold(0, 0, 11, 300, 99) | by(0, 3, 0, 0) = 0");
+        s.says("a box that is named twice counts once",
+            MANY, "hold(0, 0, 0, 300, 99) | hold(0, 0, 11, 300, 99) | by(0, 3, 0, 0) = 0");
         s.says("both boxes of sort 3 are named", MANY, "hold(0, 3, 0, 400, 99) | by(0, 1, 0, 0) = BIG");
-        s.says("products that wrap are BIG", "told g2c2" + ";31,31/31,31".repeat(12) + " | told g2c2" + ";1,1/1,1".repeat(12),
-            "hold(0, 2, 0, 1, 0) | hold(0, 2, 0, 203, 0) | hold(0, 2, 0, 405, 0) | hold(0, 2, 0, 607, 0) | hold(0, 2, 0, 809, 0)",
+        s.says("products that wrap are BIG",
+            "told g2c2" + ";31,31/31,31".repeat(12) + " | told g2c2" + ";1,1/1,1".repeat(12),
+            "hold(0, 2, 0, 1, 0) | hold(0, 2, 0, 203, 0) | hold(0, 2, 0, 405, 0) | hold(0, 2, 0, 607, 0)",
+            "hold(0, 2, 0, 809, 0)",
             "hold(0, 2, 0, 1011, 0) | by(0, 63, 0, 0) = BIG | by(0, 15, 0, 0) = BIG");
         s.says("products of the largest are BIG", "told g4c3;75,74,74,74/99,99,99;75,74,74,74/99,99,99;75,74,74,74/99,99,99",
             "hold(0, 2, 0, 1, 0) | hold(0, 2, 0, 102, 0) | by(0, 1, 0, 0) = BIG | by(0, 3, 0, 0) = BIG");
         String opened = "told g2c2;99,99/99,99;99,99/99,99;2,2/2,2 | hold(0, 2, 0, 1, 0) | hold(0, 3, 0, 200, 0)";
         s.says("30000", opened, "by(0, 3, 0, 0) = BIG");
-        s.says("an opened one counts 1", opened, "row 0 2: 40 59 59 40 | open(0, 0, 0) = 1 | by(0, 3, 0, 0) = 80 | by(0, 3, 0, 1) = 82");
+        s.says("an opened one counts 1",
+            opened, "row 0 2: 40 59 59 40 | open(0, 0, 0) = 1 | by(0, 3, 0, 0) = 80 | by(0, 3, 0, 1) = 82");
         s.says("a big one that is opened counts 1", "told g3c3;27,20,19/17,15,34 | hold(0, 0, 0, 0, 99)",
             "by(0, 1, 0, 0) = BIG | row 0 2: 17 10 0 0 5 15 0 0 19 | open(0, 0, 0) = 1 | by(0, 1, 0, 0) = 17");
     }
@@ -188,15 +212,21 @@ public final class ClaimEdgesTest {
         s.says("of told bits alone", held, "none(0, 14) = 12 | none(0, 13) = 12");
         s.says("of like ones the least as bits", held, "none(0, 15) = 3");
         s.says("the fewest ahead of the least as bits", held, "hold(0, 1, 0, 0, 5) = 4 | none(0, 31) = 16");
-        s.says("of single ones the least", FOUR, "hold(0, 0, 0, 0, 4) | hold(0, 0, 0, 0, 0) | hold(0, 1, 0, 0, 5) | none(0, 7) = 2");
-        s.says("the eighth alone", FOUR, "7 times hold(0, 0, 0, 0, 4) | hold(0, 0, 0, 0, 0) | none(0, 255) = 128 | none(0, 127) = NOT");
+        s.says("of single ones the least",
+            FOUR, "hold(0, 0, 0, 0, 4) | hold(0, 0, 0, 0, 0) | hold(0, 1, 0, 0, 5) | none(0, 7) = 2");
+        s.says("the eighth alone",
+            FOUR, "7 times hold(0, 0, 0, 0, 4) | hold(0, 0, 0, 0, 0) | none(0, 255) = 128 | none(0, 127) = NOT");
         s.says("a pair ahead of three, though more as bits", TWO,
             "hold(0, 2, 0, 1, 0) | hold(0, 1, 0, 0, 3) | hold(0, 0, 0, 100, 2) | hold(0, 1, 11, 100, 3)",
             "none(0, 7) = 7 | none(0, 15) = 12");
         s.says("all eight together", "told g2c2" + ";1,1/1,1".repeat(7),
-            "hold(0, 1, 0, 0, 1) | hold(0, 3, 0, 1, 0) | hold(0, 3, 0, 102, 0) | hold(0, 3, 0, 203, 0) | hold(0, 3, 0, 304, 0)",
-            "hold(0, 3, 0, 405, 0) | hold(0, 3, 0, 506, 0) | hold(0, 0, 0, 600, 0) | none(0, 255) = 255 | none(0, 254) = NOT");
-        s.says("what was seen", FOUR, "row 0 2: 3 2 1 2 | open(0, 0, 0) = 1 | hold(0, 0, 0, 0, 3) | hold(0, 0, 0, 0, 2) | none(0, 3) = 2 | none(0, 1) = NOT");
+            "hold(0, 1, 0, 0, 1) | hold(0, 3, 0, 1, 0) | hold(0, 3, 0, 102, 0) | hold(0, 3, 0, 203, 0)",
+            "hold(0, 3, 0, 304, 0)",
+            "hold(0, 3, 0, 405, 0) | hold(0, 3, 0, 506, 0) | hold(0, 0, 0, 600, 0) | none(0, 255) = 255",
+            "none(0, 254) = NOT");
+        s.says("what was seen",
+            FOUR, "row 0 2: 3 2 1 2 | open(0, 0, 0) = 1 | hold(0, 0, 0, 0, 3) | hold(0, 0, 0, 0, 2) | none(0, 3) = 2",
+            "none(0, 1) = NOT");
     }
 
     private static void noneBig() {
@@ -236,7 +266,9 @@ public final class ClaimEdgesTest {
         s.says("BIG: 20001", MANY, "hold(0, 0, 0, 0, 99) | claim(0, 1, 0, 0) = BIG");
         s.says("20000 are gone through", MANY, "hold(0, 0, 0, 100, 99) | claim(0, 1, 0, 0) = 2");
         s.says("BIG ahead of what is none", MANY, "hold(0, 0, 0, 0, 5) | hold(0, 1, 0, 400, 2) | claim(0, 3, 0, 0) = BIG");
-        s.says("BAD ahead of BIG", MANY, "hold(0, 0, 0, 0, 99) | claim(0, 1, 0, 10000) = BAD | claim(0, 1, 0, -1) = BAD | claim(0, 1, 30, 1) = BAD");
+        s.says("BAD ahead of BIG",
+            MANY, "hold(0, 0, 0, 0, 99) | claim(0, 1, 0, 10000) = BAD | claim(0, 1, 0, -1) = BAD",
+            "claim(0, 1, 30, 1) = BAD");
     }
 
     private static void must() {
@@ -254,18 +286,24 @@ public final class ClaimEdgesTest {
         s.says("NOT: one more than what all prove", held, "must(0, 7, 0, 10) = NOT");
         s.says("NOT: of none told", held, "must(0, 0, 0, 8) = NOT");
         s.says("not by one that lets none", held, "must(0, 1, 0, 8) = NOT");
-        s.says("not by a pair that lets none", FOUR, "hold(0, 0, 0, 0, 2) | hold(0, 1, 0, 0, 3) | must(0, 3, 0, 9) = 2 | must(0, 3, 0, 10) = NOT");
+        s.says("not by a pair that lets none",
+            FOUR, "hold(0, 0, 0, 0, 2) | hold(0, 1, 0, 0, 3) | must(0, 3, 0, 9) = 2 | must(0, 3, 0, 10) = NOT");
         s.says("of told bits alone", held, "must(0, 5, 0, 8) = 4");
         s.says("of like ones the least as bits", held, "must(0, 6, 0, 8) = 2");
         s.says("the fewest ahead of the least as bits", held, "hold(0, 1, 0, 0, 3) = 3 | must(0, 15, 0, 9) = 8");
         s.says("of pairs the least as bits", held, "hold(0, 1, 0, 0, 2) = 3 | must(0, 15, 0, 9) = 6");
-        s.says("the eighth alone", FOUR, "7 times hold(0, 0, 0, 0, 4) | hold(0, 1, 0, 0, 2) | must(0, 255, 0, 8) = 128 | must(0, 127, 0, 8) = NOT");
+        s.says("the eighth alone",
+            FOUR, "7 times hold(0, 0, 0, 0, 4) | hold(0, 1, 0, 0, 2) | must(0, 255, 0, 8) = 128 | must(0, 127, 0, 8) = NOT");
         s.says("all eight together", "told g2c2" + ";1,1/1,1".repeat(8),
-            "hold(0, 1, 0, 0, 1) | hold(0, 3, 0, 1, 0) | hold(0, 3, 0, 102, 0) | hold(0, 3, 0, 203, 0) | hold(0, 3, 0, 304, 0)",
-            "hold(0, 3, 0, 405, 0) | hold(0, 3, 0, 506, 0) | hold(0, 3, 0, 607, 0) | must(0, 255, 0, 8) = 255 | must(0, 255, 0, 7) = 127",
+            "hold(0, 1, 0, 0, 1) | hold(0, 3, 0, 1, 0) | hold(0, 3, 0, 102, 0) | hold(0, 3, 0, 203, 0)",
+            "hold(0, 3, 0, 304, 0)",
+            "hold(0, 3, 0, 405, 0) | hold(0, 3, 0, 506, 0) | hold(0, 3, 0, 607, 0) | must(0, 255, 0, 8) = 255",
+            "must(0, 255, 0, 7) = 127",
             "must(0, 254, 0, 1) = NOT");
         s.says("no boxes", "told g2c2 | must(0, 0, 0, 0) = 0 | must(0, 0, 0, 1) = NOT");
-        s.says("what was seen", FOUR, "hold(0, 1, 0, 100, 1) | must(0, 1, 0, 10) = NOT | row 0 2: 3 2 1 2 | open(0, 0, 0) = 1 | must(0, 1, 0, 9) = 0 | must(0, 1, 0, 10) = 1");
+        s.says("what was seen",
+            FOUR, "hold(0, 1, 0, 100, 1) | must(0, 1, 0, 10) = NOT | row 0 2: 3 2 1 2 | open(0, 0, 0) = 1",
+            "must(0, 1, 0, 9) = 0 | must(0, 1, 0, 10) = 1");
     }
 
     private static void mustBig() {
@@ -273,13 +311,16 @@ public final class ClaimEdgesTest {
         s.says("20001", MANY, "hold(0, 0, 0, 0, 99) | must(0, 1, 0, 1) = BIG");
         s.says("20000 are gone through", MANY, "hold(0, 0, 0, 100, 99) | must(0, 1, 0, 1) = NOT");
         s.says("the set of none is the answer ahead of a big one", MANY, "hold(0, 0, 0, 0, 99) | must(0, 1, 0, 0) = 0");
-        s.says("a big one ahead of the answer", MANY, "hold(0, 0, 0, 0, 99) | hold(0, 1, 0, 400, 1) | must(0, 3, 0, 1) = BIG");
+        s.says("a big one ahead of the answer",
+            MANY, "hold(0, 0, 0, 0, 99) | hold(0, 1, 0, 400, 1) | must(0, 3, 0, 1) = BIG");
         s.says("a big one behind the answer", MANY, "hold(0, 1, 0, 400, 1) | hold(0, 0, 0, 0, 99) | must(0, 3, 0, 1) = 1");
         s.says("a big one that is not told", MANY, "hold(0, 0, 0, 0, 99) | hold(0, 1, 0, 400, 1) | must(0, 2, 0, 1) = 2");
         s.says("a big pair behind the answer", MANY,
             "hold(0, 1, 0, 300, 1) | hold(0, 1, 0, 200, 1) | must(0, 3, 0, 1) = 1 | must(0, 3, 0, 2) = BIG");
-        s.says("a big one ahead of one that lets none", MANY, "hold(0, 1, 0, 400, 2) | hold(0, 0, 0, 0, 99) | must(0, 1, 0, 1) = NOT | must(0, 3, 0, 1) = BIG");
-        s.says("BAD ahead of BIG", MANY, "hold(0, 0, 0, 0, 99) | must(0, 1, 0, 10000) = BAD | must(0, 3, 0, 1) = BAD | must(0, 1, 3, 1) = BAD");
+        s.says("a big one ahead of one that lets none",
+            MANY, "hold(0, 1, 0, 400, 2) | hold(0, 0, 0, 0, 99) | must(0, 1, 0, 1) = NOT | must(0, 3, 0, 1) = BIG");
+        s.says("BAD ahead of BIG",
+            MANY, "hold(0, 0, 0, 0, 99) | must(0, 1, 0, 10000) = BAD | must(0, 3, 0, 1) = BAD | must(0, 1, 3, 1) = BAD");
     }
 
     private static void line() {
@@ -293,7 +334,8 @@ public final class ClaimEdgesTest {
         s.says("toward below, just at -1", below, "line(0, 332) = -2 | line(0, 333) = 0");
         s.says("toward below, above 0", below, "line(0, 334) = 1 | line(0, 999) = 998");
         s.says("what is whole stays", below, "line(0, 1000) = 1000");
-        s.says("thousandths are cut: of group 0", "told g2c2;1,2/0,3;2,1/3,0", "line(0, 333) = 0 | line(0, 666) = 1000 | line(0, 667) = 1003");
+        s.says("thousandths are cut: of group 0",
+            "told g2c2;1,2/0,3;2,1/3,0", "line(0, 333) = 0 | line(0, 666) = 1000 | line(0, 667) = 1003");
         s.says("thousandths are cut: of choice 0", "told g2c2;0,3/1,2;3,0/2,1", "line(0, 0) = 333 | line(0, 1000) = 666");
         s.says("NOT: no dots", "told g2c2 | line(0, 500) = VOID");
         s.says("NOT: one dot", "told g2c2;5,5/5,5 | line(0, 500) = VOID");
@@ -333,9 +375,14 @@ public final class ClaimEdgesTest {
             "line(0, 1000) = 501 | wrong(0, -1) = 4 | wrong(0, 3) = 4");
         s.says("by what the line says at 1000, not at the box's x",
             "told g2c2;0,1/0,1;1,1/2,0 | line(0, 500) = 1000 | line(0, 1000) = 2000 | wrong(0, -1) = 1 | wrong(0, 0) = 1");
-        s.says("not where group 0 is not there", "told g2c2;0,1/0,1;9,0/9,0;0,7/7,0 | line(0, 1000) = 1000 | wrong(0, -1) = 0");
-        s.says("all twelve", "told g2c2" + ";1,0/1,0;1,0/0,1".repeat(5) + ";1,0/1,0;0,1/1,0", "line(0, 1000) = 545 | wrong(0, -1) = 11 | wrong(0, 10) = 10 | wrong(0, 11) = BAD");
-        s.says("what is opened", FOUR, "row 0 2: 1 4 3 0 | open(0, 0, 0) = 1 | wrong(0, -1) = 2 | wrong(0, 0) = 0 | wrong(0, 1) = 3 | wrong(0, 2) = BAD");
+        s.says("not where group 0 is not there",
+            "told g2c2;0,1/0,1;9,0/9,0;0,7/7,0 | line(0, 1000) = 1000 | wrong(0, -1) = 0");
+        s.says("all twelve",
+            "told g2c2" + ";1,0/1,0;1,0/0,1".repeat(5) + ";1,0/1,0;0,1/1,0", "line(0, 1000) = 545",
+            "wrong(0, -1) = 11 | wrong(0, 10) = 10 | wrong(0, 11) = BAD");
+        s.says("what is opened",
+            FOUR, "row 0 2: 1 4 3 0 | open(0, 0, 0) = 1 | wrong(0, -1) = 2 | wrong(0, 0) = 0 | wrong(0, 1) = 3",
+            "wrong(0, 2) = BAD");
     }
 
     private static void second() {
@@ -348,12 +395,19 @@ public final class ClaimEdgesTest {
         s.refuses("more digits than choices", FOUR, "second(0, %)", "BAD", "1003005", "1000003004", "1000000003005", "8000000");
         s.says("all for the first choice", FOUR, "second(0, 8000) = 1 | split(0, 0, 0) = 4");
         s.says("all for the last choice", FOUR, "second(0, 8) = 1 | split(0, 1, 0) = 4");
-        s.says("choice 0 is the highest digit", "told g2c3;5,5/3,3,4 | second(0, 5003002) = 1 | split(0, 20, 1) = 4 | split(0, 21, 1) = 3 | split(0, 22, 1) = 2");
-        s.says("a sum above 99", LARGEST, "second(0, 297000000) = 1 | split(0, 0, 0) = 99 | second(0, 297) = 1 | split(0, 2, 0) = 99");
-        s.says("not as many, of three", LARGEST, "second(0, 298000000) = BAD | second(0, 99099098) = BAD | second(0, 99099099) = 1");
-        s.says("a digit does not run over", "told g2c3;5,5/3,3,4 | second(0, 1000009) = 1 | split(0, 2, 0) = 2 | split(0, 1, 1) = 0");
-        s.says("of no people", "told g2c2;0,0/0,0 | second(0, 1) = BAD | second(0, 1000) = BAD | second(0, 0) = 1 | splits(0, 0) = 0");
-        s.says("told anew it is what was told last", FOUR, "second(0, 8) = 1 | second(0, 8000) = 1 | split(0, 0, 1) = 4 | split(0, 1, 1) = 0");
+        s.says("choice 0 is the highest digit",
+            "told g2c3;5,5/3,3,4 | second(0, 5003002) = 1 | split(0, 20, 1) = 4 | split(0, 21, 1) = 3",
+            "split(0, 22, 1) = 2");
+        s.says("a sum above 99",
+            LARGEST, "second(0, 297000000) = 1 | split(0, 0, 0) = 99 | second(0, 297) = 1 | split(0, 2, 0) = 99");
+        s.says("not as many, of three",
+            LARGEST, "second(0, 298000000) = BAD | second(0, 99099098) = BAD | second(0, 99099099) = 1");
+        s.says("a digit does not run over",
+            "told g2c3;5,5/3,3,4 | second(0, 1000009) = 1 | split(0, 2, 0) = 2 | split(0, 1, 1) = 0");
+        s.says("of no people",
+            "told g2c2;0,0/0,0 | second(0, 1) = BAD | second(0, 1000) = BAD | second(0, 0) = 1 | splits(0, 0) = 0");
+        s.says("told anew it is what was told last",
+            FOUR, "second(0, 8) = 1 | second(0, 8000) = 1 | split(0, 0, 1) = 4 | split(0, 1, 1) = 0");
         s.says("refused, what was told stays", FOUR, "second(0, 3005) = 1 | second(0, 8001) = BAD | split(0, 0, 1) = 3");
         s.says("refused, none was told", FOUR, "second(0, 8001) = BAD | split(0, 0, 1) = STATE");
         s.says("of the last box", FOUR, "second(3, 9000) = 1 | splits(3, 0) = 3 | splits(2, 0) = STATE");
@@ -364,13 +418,16 @@ public final class ClaimEdgesTest {
         String told = FOUR + " | second(0, 3005) = 1";
         s.refuses("at", told, "split(%, 0, 0)", "BAD", NO_BOX);
         s.refuses("choices k and l", told, "split(0, %, 0)", "BAD", "-1", "-10", "2", "9", "12", "20", "22", "100", "MIN", "MAX");
-        s.refuses("choices k and l, of three", "told g4c3;1,1,1,1/1,1,2 | second(0, 4) = 1", "split(0, %, 0)", "BAD", "-1", "3", "23", "30", "32");
+        s.refuses("choices k and l, of three", "told g4c3;1,1,1,1/1,1,2 | second(0, 4) = 1",
+            "split(0, %, 0)", "BAD", "-1", "3", "23", "30", "32");
         s.refuses("what 0 .. 1", told, "split(0, 0, %)", "BAD", NO_END);
         s.says("STATE: no second vote was told", FOUR, "split(0, 0, 0) = STATE");
         s.says("STATE: of another box it was", told, "split(1, 0, 0) = STATE");
         s.says("BAD ahead of STATE", FOUR, "split(0, 2, 0) = BAD | split(0, 20, 0) = BAD | split(0, 0, 2) = BAD");
         s.says("kl: from k to l", FOUR, "second(0, 8) = 1 | split(0, 1, 0) = 4 | split(0, 10, 1) = 0");
-        s.says("the last choices of three", "told g2c3;5,5/3,3,4 | second(0, 5003002) = 1 | split(0, 22, 1) = 2 | split(0, 12, 1) = 2 | split(0, 20, 1) = 4");
+        s.says("the last choices of three",
+            "told g2c3;5,5/3,3,4 | second(0, 5003002) = 1 | split(0, 22, 1) = 2 | split(0, 12, 1) = 2",
+            "split(0, 20, 1) = 4");
         s.says("the least, one above 0", "told g2c2;5,5/6,4 | second(0, 5005) = 1 | split(0, 0, 0) = 1");
         s.says("the least, just 0", "told g2c2;5,5/5,5 | second(0, 5005) = 1 | split(0, 0, 0) = 0");
         s.says("the least, 0 where the sum is below", "told g2c2;5,5/4,6 | second(0, 5005) = 1 | split(0, 0, 0) = 0");
@@ -394,7 +451,8 @@ public final class ClaimEdgesTest {
         s.says("the most: none", "told g2c2;5,5/10,0 | second(0, 10000) = 1 | splits(0, 0) = 0 | splits(0, 1) = 0");
         s.says("the most: 0 at least is alike", "told g2c3;2,2/1,1,2 | second(0, 2001001) = 1 | splits(0, 1) = 4");
         s.says("the most: one must be alike", "told g2c3;2,2/2,1,1 | second(0, 3001000) = 1 | splits(0, 1) = 3");
-        s.says("the most: the greatest over choices, the last", "told g2c3;2,2/1,0,3 | second(0, 1003) = 1 | splits(0, 1) = 2");
+        s.says("the most: the greatest over choices, the last",
+            "told g2c3;2,2/1,0,3 | second(0, 1003) = 1 | splits(0, 1) = 2");
         s.says("of no people", "told g2c2;0,0/0,0 | second(0, 0) = 1 | splits(0, 0) = 0 | splits(0, 1) = 0");
     }
 
@@ -412,7 +470,8 @@ public final class ClaimEdgesTest {
         s.says("cut to the lesser: what went goes off", "told g2c2;5,5/5,5;1,3/4,0 | changed(1, 0) = 0");
         s.says("taken off from the last choice on: not from the first", "told g2c3;5,5/5,3,2;2,3/0,3,2 | changed(0, 1) = 5");
         s.says("taken off from the last choice on: the last is enough", "told g2c3;5,5/3,3,4;4,4/3,3,2 | changed(0, 1) = 0");
-        s.says("taken off from the last choice on: then the one ahead", "told g2c3;5,5/3,3,4;2,3/3,2,0 | changed(0, 1) = 0 | changed(1, 0) = 0");
+        s.says("taken off from the last choice on: then the one ahead",
+            "told g2c3;5,5/3,3,4;2,3/3,2,0 | changed(0, 1) = 0 | changed(1, 0) = 0");
         s.says("taken off from the last choice on: then the first", "told g2c3;5,5/5,3,2;1,1/1,0,1 | changed(0, 1) = 1");
         s.says("of no people", "told g2c2;0,0/0,0;5,5/5,5 | changed(0, 1) = 0 | changed(1, 0) = 0");
     }
@@ -425,8 +484,10 @@ public final class ClaimEdgesTest {
         s.refuses("so many of the other group", FOUR, "parted(0, 10, %, 10)", "BAD", "-1", "4", "5");
         s.refuses("so many of none", FOUR, "parted(2, 0, %, 0)", "BAD", "-1", "1");
         s.refuses("part and what, 0 .. 1 each", FOUR, "parted(0, 0, 1, %)", "BAD", "-1", "-10", "2", "9", "12", "20", "21", "100", "MIN", "MAX");
-        s.says("all of it", FOUR, "parted(0, 0, 5, 0) = 1 | parted(0, 0, 5, 1) = 4 | parted(0, 0, 5, 10) = 0 | parted(0, 0, 5, 11) = 0");
-        s.says("none of it", FOUR, "parted(0, 0, 0, 0) = 0 | parted(0, 0, 0, 1) = 0 | parted(0, 0, 0, 10) = 1 | parted(0, 0, 0, 11) = 4");
+        s.says("all of it",
+            FOUR, "parted(0, 0, 5, 0) = 1 | parted(0, 0, 5, 1) = 4 | parted(0, 0, 5, 10) = 0 | parted(0, 0, 5, 11) = 0");
+        s.says("none of it",
+            FOUR, "parted(0, 0, 0, 0) = 0 | parted(0, 0, 0, 1) = 0 | parted(0, 0, 0, 10) = 1 | parted(0, 0, 0, 11) = 4");
         s.says("none of none", FOUR, "parted(2, 0, 0, 0) = 0 | parted(2, 0, 0, 11) = 0");
         String ten = "told g2c2;9,1/5,5 | ";
         s.says("the least, one above 0", ten + "parted(0, 0, 6, 0) = 1 | parted(0, 0, 3, 10) = 1");
@@ -434,7 +495,8 @@ public final class ClaimEdgesTest {
         s.says("the least, 0 where the sum is below", ten + "parted(0, 0, 4, 0) = 0 | parted(0, 0, 5, 10) = 0");
         s.says("the most: the part is the lesser", ten + "parted(0, 0, 4, 1) = 4 | parted(0, 0, 5, 11) = 4");
         s.says("the most: the choice is the lesser", ten + "parted(0, 0, 6, 1) = 5 | parted(0, 0, 3, 11) = 5");
-        s.says("the last group, the last choice", "told g4c3;1,1,1,7/2,3,5 | parted(0, 32, 6, 0) = 1 | parted(0, 32, 6, 1) = 5 | parted(0, 32, 6, 11) = 1");
+        s.says("the last group, the last choice",
+            "told g4c3;1,1,1,7/2,3,5 | parted(0, 32, 6, 0) = 1 | parted(0, 32, 6, 1) = 5 | parted(0, 32, 6, 11) = 1");
     }
 
     private static void weight() {
@@ -447,7 +509,9 @@ public final class ClaimEdgesTest {
         s.says("v -99, the least", FOUR, "weight(0, 0, -99) = 0 | weight(0, 0, 0) = -99");
         s.says("v 99, the greatest", FOUR, "weight(0, 0, 99) = 0 | weight(0, 0, 0) = 99");
         s.says("refused, it stays", FOUR, "weight(0, 0, 7) = 0 | weight(0, 0, 100) = VOID | weight(0, 0, 0) = 7");
-        s.says("each cell's own", "told g4c3 | weight(0, 32, 5) = 0 | weight(0, 2, 6) = 0 | weight(0, 30, 7) = 0 | weight(0, 32, 0) = 5 | weight(0, 2, 0) = 6");
+        s.says("each cell's own",
+            "told g4c3 | weight(0, 32, 5) = 0 | weight(0, 2, 6) = 0 | weight(0, 30, 7) = 0 | weight(0, 32, 0) = 5",
+            "weight(0, 2, 0) = 6");
         s.says("each matter's own", FOUR, "told g2c2 | weight(0, 0, 5) = 0 | weight(1, 0, 6) = 0 | weight(0, 0, 0) = 5");
     }
 
@@ -456,10 +520,14 @@ public final class ClaimEdgesTest {
         s.refuses("at", FOUR, "likeliest(%, 0)", "BAD", NO_BOX);
         s.refuses("a cell", FOUR, "likeliest(0, %)", "BAD", NO_CELL);
         s.says("of like ones the first: all are alike", FOUR, "likeliest(0, 0) = 1 | likeliest(0, 11) = 0");
-        s.says("of like ones the first: two are alike", "told g3c3;1,1,1/1,1,1 | weight(0, 0, 1)", "likeliest(0, 0) = 1 | likeliest(0, 11) = 0 | likeliest(0, 12) = 1");
+        s.says("of like ones the first: two are alike",
+            "told g3c3;1,1,1/1,1,1 | weight(0, 0, 1)", "likeliest(0, 0) = 1 | likeliest(0, 11) = 0 | likeliest(0, 12) = 1");
         s.says("the greatest, the last", FOUR, "weight(0, 0, 1) | likeliest(0, 0) = 4 | likeliest(0, 11) = 3");
-        s.says("the greatest of those below 0", FOUR, "weight(0, 0, -99) | weight(0, 1, -99) | weight(0, 10, -1) | likeliest(0, 0) = 4");
-        s.says("greater by one", "told g2c2;1,1/1,1 | weight(0, 0, 99) | weight(0, 1, 50) | weight(0, 10, 50) | likeliest(0, 0) = 0 | weight(0, 11, 2) | likeliest(0, 0) = 1");
+        s.says("the greatest of those below 0",
+            FOUR, "weight(0, 0, -99) | weight(0, 1, -99) | weight(0, 10, -1) | likeliest(0, 0) = 4");
+        s.says("greater by one",
+            "told g2c2;1,1/1,1 | weight(0, 0, 99) | weight(0, 1, 50) | weight(0, 10, 50) | likeliest(0, 0) = 0",
+            "weight(0, 11, 2) | likeliest(0, 0) = 1");
         s.says("of one table", FOUR, "likeliest(3, 0) = 6");
         s.says("of no people", "told g2c2;0,0/0,0 | likeliest(0, 11) = 0");
         s.says("20000 tables", MANY, "likeliest(1, 0) = 0 | weight(0, 0, 1) | likeliest(1, 0) = 14");
@@ -473,16 +541,23 @@ public final class ClaimEdgesTest {
         s.refuses("at", FOUR, "weighs(%, 0)", "VOID", NO_BOX);
         s.refuses("what 0 .. 1", FOUR, "weighs(0, %)", "VOID", NO_END);
         s.says("what 0: 0 at first", FOUR, "weighs(0, 0) = 0");
-        s.says("what 1: how much less the next is", FOUR, "weight(0, 0, 3) | weight(0, 10, 1) | weighs(0, 0) = 12 | weighs(0, 1) = 2");
+        s.says("what 1: how much less the next is",
+            FOUR, "weight(0, 0, 3) | weight(0, 10, 1) | weighs(0, 0) = 12 | weighs(0, 1) = 2");
         s.says("what 1: by one", FOUR, "weight(0, 0, 1) | weighs(0, 1) = 1");
         s.says("NOT: all have one", FOUR, "weighs(0, 1) = NOT | weight(0, 0, 1) | weight(0, 10, 1) | weighs(0, 1) = NOT");
         s.says("NOT: there is but one", FOUR, "weight(0, 0, 9) | weighs(3, 1) = NOT | weighs(3, 0) = 54");
-        s.says("NOT: behind one that has a next", FOUR, "weight(0, 0, 9) | weighs(0, 1) = 9 | weighs(3, 1) = NOT | weighs(0, 1) = 9");
-        s.says("next to the greatest, not like it", "told g3c3;1,1,1/1,1,1 | weight(0, 0, 7)", "weighs(0, 0) = 7 | weighs(0, 1) = 7");
+        s.says("NOT: behind one that has a next",
+            FOUR, "weight(0, 0, 9) | weighs(0, 1) = 9 | weighs(3, 1) = NOT | weighs(0, 1) = 9");
+        s.says("next to the greatest, not like it",
+            "told g3c3;1,1,1/1,1,1 | weight(0, 0, 7)", "weighs(0, 0) = 7 | weighs(0, 1) = 7");
         s.says("next to the greatest, not the least", FOUR, "weight(0, 0, 1) | weighs(0, 0) = 4 | weighs(0, 1) = 1");
         s.says("next to the greatest, where the first is", FOUR, "weight(0, 0, -1) | weighs(0, 0) = -1 | weighs(0, 1) = 1");
-        s.says("the greatest that can be", LARGEST + " | told g2c2;99,99/99,99", "weight(1, 0, 99) | weight(1, 11, 99) | weighs(100, 0) = 19602 | weighs(100, 1) = 198");
-        s.says("the least that can be", "told g2c2;99,99/99,99", "weight(0, 0, -99) | weight(0, 1, -99) | weight(0, 10, -99) | weight(0, 11, -99) | weighs(0, 0) = -19602 | weighs(0, 1) = NOT");
+        s.says("the greatest that can be",
+            LARGEST + " | told g2c2;99,99/99,99", "weight(1, 0, 99) | weight(1, 11, 99) | weighs(100, 0) = 19602",
+            "weighs(100, 1) = 198");
+        s.says("the least that can be",
+            "told g2c2;99,99/99,99", "weight(0, 0, -99) | weight(0, 1, -99) | weight(0, 10, -99)",
+            "weight(0, 11, -99) | weighs(0, 0) = -19602 | weighs(0, 1) = NOT");
         s.says("of no people", "told g2c2;0,0/0,0 | weight(0, 0, 9) | weighs(0, 0) = 0 | weighs(0, 1) = NOT");
         s.says("20000 tables", MANY, "weighs(1, 0) = 0 | weighs(1, 1) = NOT");
         s.says("BIG: 20001 tables", MANY, "weighs(0, 0) = BIG");
@@ -502,9 +577,11 @@ public final class ClaimEdgesTest {
         s.says("just the most that it can be", FOUR, "chance(0, 0, 4) = 250");
         s.says("one more than the most", FOUR, "chance(0, 0, 5) = 0");
         s.says("more than its group, not more than its choice",
-            "told g2c2;1,40/30,11;40,1/30,11 | chance(0, 0, 2) = 0 | chance(0, 0, 20) = 0 | chance(1, 10, 2) = 0 | chance(1, 10, 20) = 0");
+            "told g2c2;1,40/30,11;40,1/30,11 | chance(0, 0, 2) = 0 | chance(0, 0, 20) = 0 | chance(1, 10, 2) = 0",
+            "chance(1, 10, 20) = 0");
         s.says("more than its choice, not more than its group",
-            "told g2c3;40,10/1,30,19;40,10/30,19,1 | chance(0, 0, 2) = 0 | chance(0, 0, 20) = 0 | chance(1, 2, 2) = 0 | chance(1, 2, 20) = 0");
+            "told g2c3;40,10/1,30,19;40,10/30,19,1 | chance(0, 0, 2) = 0 | chance(0, 0, 20) = 0",
+            "chance(1, 2, 2) = 0 | chance(1, 2, 20) = 0");
         s.says("cut: 1 of 3, 2 of 3", FOUR, "chance(1, 0, 2) = 333 | chance(1, 0, 1) = 666");
         s.says("of one table", FOUR, "chance(3, 0, 6) = 1000 | chance(3, 0, 7) = 0");
         s.says("of no people", "told g2c2;0,0/0,0 | chance(0, 0, 0) = 1000 | chance(0, 0, 1) = 0");

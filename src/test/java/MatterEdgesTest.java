@@ -50,6 +50,15 @@ public final class MatterEdgesTest {
             s.says("shelf " + shelf + " holds nothing", "taken(" + shelf + ", 0) = -11 | put(" + shelf + ", 0, 1) = -11");
         }
         s.says("no line", "line(0, 0) = VOID | wrong(0, -1) = BAD");
+        String[] nothingYet = {"of(0, 0) = BAD", "sum(0, 20) = BAD", "many(0) = BAD", "table(0, 0, 0) = BAD", "drawn(0, 0, 0) = BAD",
+            "may(0, 0, 0) = BAD", "open(0, 0, 0) = BAD", "ends(0, 0, 0) = BAD", "inAll(0, 0, 0) = VOID", "sure(0, 0) = BAD",
+            "next(0, 0) = BAD", "opens(0, 0, 0) = BAD", "hold(0, 0, 0, 0, 0) = BAD", "by(0, 0, 0, 0) = BAD", "none(0, 0) = BAD",
+            "claim(0, 0, 0, 0) = BAD", "must(0, 0, 0, 0) = BAD", "line(0, 0) = VOID", "wrong(0, -1) = BAD", "second(0, 0) = BAD",
+            "split(0, 0, 0) = BAD", "splits(0, 0) = BAD", "changed(0, 0) = BAD", "parted(0, 0, 0, 0) = BAD", "weight(0, 0, 1) = VOID",
+            "likeliest(0, 0) = BAD", "weighs(0, 0) = VOID", "chance(0, 0, 0) = BAD", "act(0, 0, 1) = 0", "trace(0) = BAD",
+            "keep(0, 0) = BAD", "put(0, 0, 1) = -11", "element(0, 0) = LEAST", "shift(0, 0, 1, 0, 0) = -11", "taken(0, 0) = -11",
+            "boxes(0, 0, 0, 1) = BAD"};
+        for (String call : nothingYet) s.says("nothing is there yet: " + call, call);
         s.says("the first of each is 0", "told g2c2;1,1/1,1 | of(0, 2) = 1 | hold(0, 0, 0, 0, 1) = 0 | knowing(0) = 0");
     }
 
@@ -81,7 +90,8 @@ public final class MatterEdgesTest {
         s.says("the last is 3", "told g2c2 | told g2c2 | told g2c2 | tape g4c3 | matter() = 3 | of(3, 0) = 4");
         s.says("the tape is empty then", "tape g2c2;1,1/1,1 | matter() = 0 | count(1) = 0 | matter() = -100");
         s.says("no box is there, if none is told", "tape g2c2 | matter() = 0 | of(0, 2) = 0 | sum(0, 20) = BAD");
-        s.says("a matter is not less for the one behind it", FOUR, "told g4c3", "of(0, 0) = 2 | of(0, 2) = 4 | sum(3, 10) = 6");
+        s.says("a matter is not less for the one behind it",
+            FOUR, "told g4c3", "of(0, 0) = 2 | of(0, 2) = 4 | sum(3, 10) = 6");
     }
 
     private static void matterFault() {
@@ -92,9 +102,11 @@ public final class MatterEdgesTest {
         s.says("the last of 200 bytes",
             "tape g4c3" + ";10,10,10,10/20,10,10".repeat(9) + ";1,1,1x", "count(1) = 200 | matter() = -299");
         s.says("the tape is empty then", "tape g2c2;1,1/1,1; | matter() = -113 | count(1) = 0 | matter() = -100");
-        s.says("nothing of the text comes", "tape g2c2;1,1/1,1; | matter() = -113 | count(0) = 0 | count(2) = 0 | of(0, 0) = BAD");
+        s.says("nothing of the text comes",
+            "tape g2c2;1,1/1,1; | matter() = -113 | count(0) = 0 | count(2) = 0 | of(0, 0) = BAD");
         s.says("the number is for the next", "tape g2 | matter() = -102 | tape g2c2 | matter() = 0");
-        s.says("nothing is left of it for a shorter text", "tape g2c2;1,1/1,1;1 | matter() = -114 | tape g2c2;1 | matter() = -106");
+        s.says("nothing is left of it for a shorter text",
+            "tape g2c2;1,1/1,1;1 | matter() = -114 | tape g2c2;1 | matter() = -106");
         s.says("ahead of an uneven box, whatever comes first", "tape g2c2;1,1/1,2;x | matter() = -113");
     }
 
@@ -121,7 +133,8 @@ public final class MatterEdgesTest {
         s.says("ahead of an uneven box", FOUR_MATTERS, "tape g2c2;1,1/1,2 | matter() = FULL | count(1) = 12");
         s.says("again and again", FOUR_MATTERS, "tape g2c2 | matter() = FULL | matter() = FULL | count(1) = 4");
         s.says("uneven boxes and faults do not count",
-            "tape g2 | matter() = -102 | tape g2c2;0,0/0,1 | matter() = -400", FOUR_MATTERS, "count(0) = 4 | matter() = FULL");
+            "tape g2 | matter() = -102 | tape g2c2;0,0/0,1 | matter() = -400", FOUR_MATTERS, "count(0) = 4",
+            "matter() = FULL");
     }
 
     private static void of() {
@@ -211,14 +224,16 @@ public final class MatterEdgesTest {
         s.says("the last of its group: not at an earlier one", FOUR, "row 0 2: 6 0 0 2 | may(0, 0, 0) = 1");
         s.says("the last of its choice: one more", FOUR, "row 0 2: 2 3 3 0 | may(0, 0, 0) = 10");
         s.says("the last of its choice: one less", FOUR, "row 0 2: 2 3 1 2 | may(0, 0, 0) = 10");
-        s.says("the last of its choice: the second choice", "told g2c3;3,3/2,2,2 | row 0 2: 1 1 1 1 2 0 | may(0, 0, 0) = 11");
+        s.says("the last of its choice: the second choice",
+            "told g2c3;3,3/2,2,2 | row 0 2: 1 1 1 1 2 0 | may(0, 0, 0) = 11");
         s.says("the last of its group and its choice", FOUR, "row 0 2: 2 3 2 2 | may(0, 0, 0) = 11");
         s.says("the last group's last", "told g3c2;1,1,1/2,1 | row 0 2: 1 0 1 0 0 2 | may(0, 0, 0) = 21");
         s.says("a group ahead of a choice", "told g3c2;1,1,1/2,1 | row 0 2: 1 0 2 0 0 1 | may(0, 0, 0) = 11");
         s.says("cells are 10 times the group, and the choice",
             "told g4c3;1,1,1,1/2,1,1 | row 0 2: 1 0 0 1 0 0 0 1 0 0 1 0 | may(0, 0, 0) = 31");
         s.says("sums do not wrap", "told g2c3;3,3/2,2,2 | row 0 2: 2147483647 2147483647 5 0 0 0 | may(0, 0, 0) = 2");
-        s.says("of no people", "told g2c2;0,0/0,0 | row 0 2: 0 0 0 0 | may(0, 0, 0) = NOT | put(0, 0, 1) | may(0, 0, 0) = 1");
+        s.says("of no people",
+            "told g2c2;0,0/0,0 | row 0 2: 0 0 0 0 | may(0, 0, 0) = NOT | put(0, 0, 1) | may(0, 0, 0) = 1");
     }
 
     private static void mayRefused() {
@@ -268,13 +283,19 @@ public final class MatterEdgesTest {
         s.says("BAD ahead of -11", FOUR, "open(4, 0, 0) = BAD");
         s.says("its ends are then what it is", row, "open(0, 0, 1) = 1 | ends(0, 0, 0) = 2 | ends(0, 0, 1) = 2");
         s.says("the last cell, too", row, "open(0, 0, 1) = 1 | ends(0, 11, 0) = 1 | ends(0, 11, 1) = 1");
-        s.says("it stays so when the row changes", row, "open(0, 0, 1) = 1 | put(0, 1, 4) | row(0, 2, 0) | ends(0, 0, 1) = 2");
-        s.says("the other boxes are not opened", row, "open(0, 0, 1) = 1 | ends(1, 0, 0) = 0 | ends(1, 0, 1) = 2 | next(0, 0) = 1");
+        s.says("it stays so when the row changes",
+            row, "open(0, 0, 1) = 1 | put(0, 1, 4) | row(0, 2, 0) | ends(0, 0, 1) = 2");
+        s.says("the other boxes are not opened",
+            row, "open(0, 0, 1) = 1 | ends(1, 0, 0) = 0 | ends(1, 0, 1) = 2 | next(0, 0) = 1");
         s.says("the last box", FOUR, "row 0 2: 6 3 0 0 | open(3, 0, 0) = 1 | count(3) = 1");
         s.says("a box of no people", "told g2c2;0,0/0,0 | row(0, 2, 4) | open(0, 0, 0) = 1 | open(0, 0, 0) = STATE");
-        s.says("from the last places of the longest row", FOUR, "row(5, 2, 60) | put(5, 58, 1) | put(5, 59, 3) | open(2, 5, 57) = -13 | open(2, 5, 56) = 1 | count(3) = 1");
-        s.says("all cells of four groups and three choices", "told g4c3;1,2,3,4/4,3,3 | row 0 2: 1 0 0 1 1 0 2 0 1 0 2 2 | open(0, 0, 0) = 1",
-            "ends(0, 0, 0) = 1 | ends(0, 12, 1) = 0 | ends(0, 20, 1) = 2 | ends(0, 22, 1) = 1 | ends(0, 31, 0) = 2 | ends(0, 32, 1) = 2");
+        s.says("from the last places of the longest row",
+            FOUR, "row(5, 2, 60) | put(5, 58, 1) | put(5, 59, 3) | open(2, 5, 57) = -13 | open(2, 5, 56) = 1",
+            "count(3) = 1");
+        s.says("all cells of four groups and three choices",
+            "told g4c3;1,2,3,4/4,3,3 | row 0 2: 1 0 0 1 1 0 2 0 1 0 2 2 | open(0, 0, 0) = 1",
+            "ends(0, 0, 0) = 1 | ends(0, 12, 1) = 0 | ends(0, 20, 1) = 2 | ends(0, 22, 1) = 1 | ends(0, 31, 0) = 2",
+            "ends(0, 32, 1) = 2");
         s.says("of like boxes the one that is named", "told g2c2;1,1/1,1;1,1/1,1 | row 0 2: 1 0 0 1",
             "open(1, 0, 0) = 1 | ends(0, 0, 0) = 0 | ends(1, 0, 0) = 1 | open(0, 0, 0) = 1 | count(3) = 2");
     }
@@ -305,7 +326,8 @@ public final class MatterEdgesTest {
         s.says("what 1: the most", FOUR, "inAll(0, 0, 1) = 12");
         s.says("what 2: the share of the least, cut", FOUR, "inAll(0, 0, 2) = 437");
         s.says("what 3: the share of the most", FOUR, "inAll(0, 0, 3) = 750");
-        s.says("the last cell", FOUR, "inAll(0, 11, 0) = 6 | inAll(0, 11, 1) = 11 | inAll(0, 11, 2) = 461 | inAll(0, 11, 3) = 846");
+        s.says("the last cell",
+            FOUR, "inAll(0, 11, 0) = 6 | inAll(0, 11, 1) = 11 | inAll(0, 11, 2) = 461 | inAll(0, 11, 3) = 846");
         s.says("a share of none", "told g2c2;5,5/5,5 | inAll(0, 0, 2) = 0");
         s.says("a share of all", "told g2c2;5,0/5,0 | inAll(0, 0, 2) = 1000 | inAll(0, 0, 3) = 1000");
         s.says("VOID: the group is nowhere", "told g2c2;0,4/1,3;0,1/1,0 | inAll(0, 0, 2) = VOID | inAll(0, 1, 3) = VOID");
@@ -357,11 +379,14 @@ public final class MatterEdgesTest {
         s.says("v is one less than it is wide", FOUR, "opens(0, 0, 4) = 1");
         s.says("v is just what one opened leaves", FOUR, "opens(0, 0, 2) = 1");
         s.says("v is one less than what one opened leaves", FOUR, "opens(0, 0, 1) = 2");
-        s.says("widest first", "told g2c2;1,1/1,1;4,4/4,4;1,1/1,1 | opens(0, 0, 2) = 1 | opens(0, 0, 1) = 2 | opens(0, 0, 0) = 3");
+        s.says("widest first",
+            "told g2c2;1,1/1,1;4,4/4,4;1,1/1,1 | opens(0, 0, 2) = 1 | opens(0, 0, 1) = 2 | opens(0, 0, 0) = 3");
         s.says("none wide", "told g2c2;1,0/1,0 | opens(0, 0, 0) = 0");
         s.says("no boxes", "told g2c2 | opens(0, 0, 0) = 0");
-        s.says("all twelve", "told g2c2" + ";1,1/1,1".repeat(12), "opens(0, 0, 0) = 12 | opens(0, 0, 1) = 11 | opens(0, 0, 11) = 1");
+        s.says("all twelve",
+            "told g2c2" + ";1,1/1,1".repeat(12), "opens(0, 0, 0) = 12 | opens(0, 0, 1) = 11 | opens(0, 0, 11) = 1");
         s.says("sure boxes are not opened for it", "told g2c2;1,0/1,0;1,1/1,1;0,1/1,0 | opens(0, 0, 0) = 1");
-        s.says("opened ones are not opened again", FOUR, "row 0 2: 3 2 1 2 | open(0, 0, 0) = 1 | opens(0, 0, 2) = 0 | opens(0, 0, 0) = 1");
+        s.says("opened ones are not opened again",
+            FOUR, "row 0 2: 3 2 1 2 | open(0, 0, 0) = 1 | opens(0, 0, 2) = 0 | opens(0, 0, 0) = 1");
     }
 }

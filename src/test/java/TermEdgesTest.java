@@ -43,9 +43,11 @@ public final class TermEdgesTest {
     private static void calls() {
         s.promise("what it is");
         s.says("the 512th call answers, too", "509 times count(0) | tape g2c2 | matter() = 0 | of(0, 0) = 2");
-        s.says("all calls may change something", "50 times knowing(6) | 460 times act(49, 3, 1) | act(49, 3, 0) = 300 | count(5) = 8");
+        s.says("all calls may change something",
+            "50 times knowing(6) | 460 times act(49, 3, 1) | act(49, 3, 0) = 300 | count(5) = 8");
         s.says("all calls may be of the dearest", MANY,
-            "hold(0, 0, 0, 100, 17) | hold(0, 1, 0, 100, 15) | 100 times none(0, 3) | none(0, 3) = 2 | by(0, 3, 0, 0) = NOT");
+            "hold(0, 0, 0, 100, 17) | hold(0, 1, 0, 100, 15) | 100 times none(0, 3) | none(0, 3) = 2",
+            "by(0, 3, 0, 0) = NOT");
     }
 
     private static void matters() {
@@ -57,7 +59,8 @@ public final class TermEdgesTest {
         s.says("none", "told g2c2 | of(0, 2) = 0 | sum(0, 20) = BAD");
         s.says("the greatest", "told g2c2" + ONE.repeat(12), "of(0, 2) = 12 | sum(11, 20) = 2 | sum(12, 20) = BAD");
         s.says("the ; ahead of a thirteenth is the fault", "tape g2c2" + ONE.repeat(13), "matter() = -200");
-        s.says("the ; ahead of a thirteenth is the fault, though nothing is behind it", "tape g2c2" + ONE.repeat(12) + ";", "matter() = -200");
+        s.says("the ; ahead of a thirteenth is the fault, though nothing is behind it",
+            "tape g2c2" + ONE.repeat(12) + ";", "matter() = -200");
         s.says("ahead of a thirteenth no other sign goes on", "tape g2c2" + ONE.repeat(12) + "x", "matter() = -200");
         s.says("the ; ahead of the twelfth is none", "tape g2c2" + ONE.repeat(11) + ";", "matter() = -193");
     }
@@ -65,7 +68,8 @@ public final class TermEdgesTest {
     private static void tape() {
         s.promise("terms 1, the tape");
         String full = "g4c3" + ";10,10,10,10/20,10,10".repeat(8) + ";1,1,1,1/2,1,1".repeat(2);
-        s.says("at most 200 bytes: all of them are read", "tape " + full, "count(1) = 200 | matter() = 0 | of(0, 2) = 10 | sum(9, 20) = 4");
+        s.says("at most 200 bytes: all of them are read",
+            "tape " + full, "count(1) = 200 | matter() = 0 | of(0, 2) = 10 | sum(9, 20) = 4");
         s.says("at most 200 bytes: one more does not come", "tape " + full, "feed(1, 0) = FULL | matter() = 0");
         s.says("the lowest byte first", "feed(4, 0x32633267) = 4 | matter() = 0");
     }
@@ -86,8 +90,10 @@ public final class TermEdgesTest {
         s.says("choices: one above the greatest, though groups have it", "tape g4c4 | matter() = -103");
         s.says("choices: signs beside the digits", "tape g2c/ | matter() = -103 | tape g2c: | matter() = -103");
         s.says("choices: two digits", "tape g2c22 | matter() = -104 | tape g2c02 | matter() = -103");
-        s.says("g is no other sign", "tape G2c2 | matter() = -100 | tape h2c2 | matter() = -100 | tape c2g2 | matter() = -100");
-        s.says("c is no other sign", "tape g2C2 | matter() = -102 | tape g2g2 | matter() = -102 | tape g22 | matter() = -102");
+        s.says("g is no other sign",
+            "tape G2c2 | matter() = -100 | tape h2c2 | matter() = -100 | tape c2g2 | matter() = -100");
+        s.says("c is no other sign",
+            "tape g2C2 | matter() = -102 | tape g2g2 | matter() = -102 | tape g22 | matter() = -102");
         s.says("no blanks", "tape g2c2;1,1/1,1 | matter() = 0 | feed(1, 32) = 1 | tape g2c2 | matter() = -100");
         s.says("no blank behind g", "feed(3, 0x322067) = 3 | matter() = -101");
         s.says("no blank behind it", "tape g2c2 | feed(1, 32) = 5 | matter() = -104");
@@ -100,7 +106,8 @@ public final class TermEdgesTest {
     private static void sums() {
         s.promise("terms 1, sums / sums");
         s.says("1 digit, the least and the greatest", "tape g2c2;0,9/9,0 | matter() = 0 | sum(0, 0) = 0 | sum(0, 1) = 9");
-        s.says("2 digits, the least and the greatest", "tape g2c2;10,99/99,10 | matter() = 0 | sum(0, 0) = 10 | sum(0, 1) = 99");
+        s.says("2 digits, the least and the greatest",
+            "tape g2c2;10,99/99,10 | matter() = 0 | sum(0, 0) = 10 | sum(0, 1) = 99");
         s.says("2 digits, the first is 0", "tape g2c2;00,07/7,0 | matter() = 0 | sum(0, 0) = 0 | sum(0, 1) = 7");
         s.says("no digit: by group", "tape g2c2;,1/1,1 | matter() = -105");
         s.says("no digit: by choice", "tape g2c2;1,1/,1 | matter() = -109");
@@ -160,8 +167,10 @@ public final class TermEdgesTest {
         s.says("all sums are kept: of a group", "told g2c2;1,1/1,1 | row 0 2: 0 0 1 1 | may(0, 0, 0) = 1");
         s.says("all sums are kept: of a choice", "told g2c2;1,1/1,1 | row 0 2: 1 0 1 0 | may(0, 0, 0) = 10");
         s.says("in order: the first number counts most", "told g2c2;1,1/1,1 | table(0, 0, 0) = 0 | table(0, 1, 0) = 1");
-        s.says("in order: choice by choice", "told g2c3;1,2/1,1,1 | table(0, 0, 2) = 1 | table(0, 1, 1) = 1 | table(0, 2, 0) = 1");
-        s.says("in order: group by group", "told g3c2;1,1,1/1,2 | table(0, 0, 20) = 1 | table(0, 1, 10) = 1 | table(0, 2, 0) = 1");
+        s.says("in order: choice by choice",
+            "told g2c3;1,2/1,1,1 | table(0, 0, 2) = 1 | table(0, 1, 1) = 1 | table(0, 2, 0) = 1");
+        s.says("in order: group by group",
+            "told g3c2;1,1,1/1,2 | table(0, 0, 20) = 1 | table(0, 1, 10) = 1 | table(0, 2, 0) = 1");
         s.says("how many: one", "told g2c2;4,0/3,1 | many(0) = 1");
         s.says("how many: of two cells' room", "told g2c2;1,1/1,1 | many(0) = 2");
         s.says("how many: a long", LARGEST, "many(0) = 9005636100");
@@ -180,19 +189,22 @@ public final class TermEdgesTest {
         s.says("in all: of the matter", FOUR, "told g2c2;1,0/1,0 | inAll(1, 0, 1) = 1 | inAll(0, 0, 1) = 12");
         s.says("share: cut", "told g2c2;3,1/2,2 | inAll(0, 0, 2) = 333 | inAll(0, 0, 3) = 666");
         s.says("share: of the group in all, not of one box", "told g2c2;3,0/3,0;0,1/1,0;3,0/0,3 | inAll(0, 0, 3) = 500");
-        s.says("share: void where the group is 0 in all", "told g2c2;0,3/3,0 | inAll(0, 1, 2) = VOID | inAll(0, 1, 3) = VOID");
+        s.says("share: void where the group is 0 in all",
+            "told g2c2;0,3/3,0 | inAll(0, 1, 2) = VOID | inAll(0, 1, 3) = VOID");
         s.says("sure: wide 0", "told g2c2;3,0/2,1 | sure(0, 0) = 1");
         s.says("sure: not wide 1", "told g2c2;1,1/1,1 | sure(0, 0) = 0");
     }
 
     private static void held() {
         s.promise("terms 2, held things");
-        s.says("0 .. 7: the last is 7", FOUR, "7 times hold(0, 0, 0, 0, 4) | hold(0, 0, 0, 0, 4) = 7 | hold(0, 0, 0, 0, 4) = FULL");
+        s.says("0 .. 7: the last is 7",
+            FOUR, "7 times hold(0, 0, 0, 0, 4) | hold(0, 0, 0, 0, 4) = 7 | hold(0, 0, 0, 0, 4) = FULL");
         s.says("v 0 .. 999: the least", FOUR, "hold(0, 0, 0, 2, 0) = 0 | hold(0, 0, 0, 2, -1) = BAD");
         s.says("v 0 .. 999: the greatest", FOUR, "hold(0, 1, 0, 2, 999) = 0 | hold(0, 1, 0, 2, 1000) = BAD");
         s.says("sorts 0 .. 3: the least", FOUR, "hold(0, 0, 0, 0, 1) = 0 | hold(0, -1, 0, 0, 1) = BAD");
         s.says("sorts 0 .. 3: the greatest", FOUR, "hold(0, 3, 0, 1, 1) = 0 | hold(0, 4, 0, 1, 1) = BAD");
-        s.says("of 2 and 3 the other box is told", FOUR, "hold(0, 2, 0, 4, 1) = BAD | hold(0, 3, 0, 4, 1) = BAD | hold(0, 2, 0, 3, 1) = 0");
+        s.says("of 2 and 3 the other box is told",
+            FOUR, "hold(0, 2, 0, 4, 1) = BAD | hold(0, 3, 0, 4, 1) = BAD | hold(0, 2, 0, 3, 1) = 0");
         s.says("of 0 and 1 it is not", FOUR, "hold(0, 0, 0, 4, 1) = 0 | hold(0, 1, 0, 4, 1) = 1");
     }
 
@@ -201,20 +213,26 @@ public final class TermEdgesTest {
         s.says("20000 rows are gone through", MANY, "hold(0, 0, 0, 100, 3) | by(0, 1, 0, 1) = 21");
         s.says("above 20000: BIG", MANY, "hold(0, 0, 0, 0, 3) | by(0, 1, 0, 1) = BIG");
         s.says("20000 times 2 is above", MANY, "hold(0, 2, 0, 102, 1) | by(0, 1, 0, 1) = BIG");
-        s.says("others by ends, though they are many", MANY, "hold(0, 0, 0, 200, 0) | by(0, 1, 0, 0) = 0 | by(0, 1, 0, 1) = 31");
+        s.says("others by ends, though they are many",
+            MANY, "hold(0, 0, 0, 200, 0) | by(0, 1, 0, 0) = 0 | by(0, 1, 0, 1) = 31");
         s.says("none: there is no such row", FOUR, "hold(0, 0, 0, 0, 0) | by(0, 1, 0, 0) = NOT");
         s.says("none: one row is enough", FOUR, "hold(0, 0, 0, 0, 1) | by(0, 1, 0, 0) = 7 | by(0, 1, 0, 1) = 9");
         s.says("none: two that can't be at once", FOUR, "hold(0, 0, 0, 0, 2) | hold(0, 1, 0, 0, 3) | by(0, 3, 0, 0) = NOT");
-        s.says("none: two that just can", FOUR, "hold(0, 0, 0, 0, 3) | hold(0, 1, 0, 0, 3) | by(0, 3, 0, 0) = 9 | by(0, 3, 0, 1) = 11");
-        s.says("of the cells of one box, one table", "told g2c2;9,9/9,9 | hold(0, 1, 0, 0, 5) | hold(0, 1, 11, 0, 6) | hold(0, 1, 10, 0, 4)",
+        s.says("none: two that just can",
+            FOUR, "hold(0, 0, 0, 0, 3) | hold(0, 1, 0, 0, 3) | by(0, 3, 0, 0) = 9 | by(0, 3, 0, 1) = 11");
+        s.says("of the cells of one box, one table",
+            "told g2c2;9,9/9,9 | hold(0, 1, 0, 0, 5) | hold(0, 1, 11, 0, 6) | hold(0, 1, 10, 0, 4)",
             "by(0, 3, 0, 0) = 6 | by(0, 7, 0, 0) = NOT");
     }
 
     private static void claims() {
         s.promise("terms 2, none together, claims, must");
-        s.says("none together: the fewest", FOUR, "hold(0, 0, 0, 0, 2) | hold(0, 1, 0, 0, 3) | hold(0, 1, 0, 0, 5) | none(0, 7) = 4");
-        s.says("none together: of like ones the least", FOUR, "hold(0, 0, 0, 0, 2) | hold(0, 1, 0, 0, 3) | hold(0, 1, 0, 0, 4) | none(0, 7) = 3");
-        s.says("none together: all of the told let some", FOUR, "hold(0, 0, 0, 0, 3) | hold(0, 1, 0, 0, 3) | none(0, 3) = NOT");
+        s.says("none together: the fewest",
+            FOUR, "hold(0, 0, 0, 0, 2) | hold(0, 1, 0, 0, 3) | hold(0, 1, 0, 0, 5) | none(0, 7) = 4");
+        s.says("none together: of like ones the least",
+            FOUR, "hold(0, 0, 0, 0, 2) | hold(0, 1, 0, 0, 3) | hold(0, 1, 0, 0, 4) | none(0, 7) = 3");
+        s.says("none together: all of the told let some",
+            FOUR, "hold(0, 0, 0, 0, 3) | hold(0, 1, 0, 0, 3) | none(0, 3) = NOT");
         s.says("follows: the least is v", FOUR, "claim(0, 0, 0, 7) = 2");
         s.says("follows: the least is more than v", FOUR, "claim(0, 0, 0, 6) = 2");
         s.says("may be: the least is less than v", FOUR, "claim(0, 0, 0, 8) = 1");
@@ -222,9 +240,12 @@ public final class TermEdgesTest {
         s.says("can't be: the most is less than v", FOUR, "claim(0, 0, 0, 13) = 0");
         s.says("follows by none", FOUR, "hold(0, 0, 0, 0, 0) | claim(0, 1, 0, 13) = 2");
         s.says("must: not by none", FOUR, "hold(0, 0, 0, 0, 0) | must(0, 1, 0, 8) = NOT");
-        s.says("must: the fewest", FOUR, "hold(0, 1, 0, 0, 2) | hold(0, 1, 0, 100, 1) | hold(0, 1, 0, 0, 3) | must(0, 7, 0, 9) = 4");
-        s.says("must: then the least", FOUR, "hold(0, 1, 0, 0, 2) | hold(0, 1, 0, 100, 1) | hold(0, 1, 0, 100, 1) | must(0, 7, 0, 9) = 3");
-        s.says("must: a set that lets some, of one that does not", FOUR, "hold(0, 0, 0, 0, 0) | hold(0, 1, 0, 100, 1) | must(0, 3, 0, 8) = 2");
+        s.says("must: the fewest",
+            FOUR, "hold(0, 1, 0, 0, 2) | hold(0, 1, 0, 100, 1) | hold(0, 1, 0, 0, 3) | must(0, 7, 0, 9) = 4");
+        s.says("must: then the least",
+            FOUR, "hold(0, 1, 0, 0, 2) | hold(0, 1, 0, 100, 1) | hold(0, 1, 0, 100, 1) | must(0, 7, 0, 9) = 3");
+        s.says("must: a set that lets some, of one that does not",
+            FOUR, "hold(0, 0, 0, 0, 0) | hold(0, 1, 0, 100, 1) | must(0, 3, 0, 8) = 2");
         s.says("must: NOT, by none", FOUR, "hold(0, 1, 0, 0, 2) | must(0, 1, 0, 9) = NOT");
     }
 
@@ -241,13 +262,17 @@ public final class TermEdgesTest {
 
     private static void wrongs() {
         s.promise("terms 3, wrong");
-        s.says("below the least, cut", "told g2c2;0,1/0,1;3,0/2,1;3,0/2,1;98,0/65,33 | line(0, 1000) = 665 | wrong(0, 0) = 1");
+        s.says("below the least, cut",
+            "told g2c2;0,1/0,1;3,0/2,1;3,0/2,1;98,0/65,33 | line(0, 1000) = 665 | wrong(0, 0) = 1");
         s.says("just the least, cut", "told g2c2;0,1/0,1;3,0/2,1 | line(0, 1000) = 666 | wrong(0, -1) = 0");
         s.says("above the most, cut up", "told g2c2;0,1/0,1;3,0/2,1;97,0/65,32 | line(0, 1000) = 668 | wrong(0, 0) = 1");
-        s.says("just the most, cut up", "told g2c2;0,1/0,1;3,0/2,1;3,0/2,1;97,0/65,32 | line(0, 1000) = 667 | wrong(0, 0) = 3");
-        s.says("where group 0 is there: one of it", "told g2c2;1,0/0,1;0,1/0,1;1,0/1,0 | line(0, 1000) = 500 | wrong(0, -1) = 2 | wrong(0, 1) = 2");
+        s.says("just the most, cut up",
+            "told g2c2;0,1/0,1;3,0/2,1;3,0/2,1;97,0/65,32 | line(0, 1000) = 667 | wrong(0, 0) = 3");
+        s.says("where group 0 is there: one of it",
+            "told g2c2;1,0/0,1;0,1/0,1;1,0/1,0 | line(0, 1000) = 500 | wrong(0, -1) = 2 | wrong(0, 1) = 2");
         s.says("not where it is not there", "told g2c2;0,1/0,1;1,0/1,0 | line(0, 1000) = 1000 | wrong(0, -1) = 0");
-        s.says("at x 1000, not at the box's x", "told g2c2;0,1/0,1;1,1/2,0 | line(0, 500) = 1000 | line(0, 1000) = 2000 | wrong(0, -1) = 1");
+        s.says("at x 1000, not at the box's x",
+            "told g2c2;0,1/0,1;1,1/2,0 | line(0, 500) = 1000 | line(0, 1000) = 2000 | wrong(0, -1) = 1");
     }
 
     private static void drawn() {
@@ -268,7 +293,8 @@ public final class TermEdgesTest {
         s.says("split: r + k - n is 0 at least", FOUR, "second(0, 3005) = 1 | split(0, 0, 0) = 0 | split(0, 1, 0) = 1");
         s.says("split: the lesser", FOUR, "second(0, 3005) = 1 | split(0, 0, 1) = 3 | split(0, 1, 1) = 4");
         s.says("the least that must have: the lesser of both sums", FOUR, "second(0, 8000) = 1 | splits(0, 0) = 4");
-        s.says("the most that can have: 0 at least is alike", "told g2c3;1,2/1,1,1 | second(0, 1001001) = 1 | splits(0, 1) = 3");
+        s.says("the most that can have: 0 at least is alike",
+            "told g2c3;1,2/1,1,1 | second(0, 1001001) = 1 | splits(0, 1) = 3");
         s.says("the most that can have: one is alike", "told g2c3;1,2/2,1,0 | second(0, 2001000) = 1 | splits(0, 1) = 2");
         s.promise("terms 4, parted anew");
         s.says("the first so many and the rest", FOUR, "parted(0, 0, 2, 1) = 2 | parted(0, 0, 2, 11) = 3");
@@ -319,7 +345,8 @@ public final class TermEdgesTest {
         s.says("0 .. 49, as they come", "knowing(1) = 0 | 48 times knowing(1) | knowing(1) = 49 | knowing(1) = FULL");
         s.says("an int that wraps", "knowing(0) | act(0, 1, 0x7fffffff) = -2");
         s.says("the trace: of the latest act", "knowing(0) | act(0, 1, 5) | act(0, 2, 5) | trace(0) = 11 | trace(1) = BAD");
-        s.says("the trace: as they began", "knowing(1) | act(0, 1, 5) | trace(0) = 10 | trace(1) = 20 | trace(2) = 1 | trace(3) = BAD");
+        s.says("the trace: as they began",
+            "knowing(1) | act(0, 1, 5) | trace(0) = 10 | trace(1) = 20 | trace(2) = 1 | trace(3) = BAD");
     }
 
     private static void shelves() {
@@ -371,12 +398,16 @@ public final class TermEdgesTest {
         s.says("BAD ahead of all: chance", MANY, "chance(0, 0, 1000) = BAD");
         s.says("what is named first: -11 to -13 ahead of NOT and STATE", FOUR,
             "row 0 2: 2 3 2 1 | open(0, 0, 0) = 1 | open(0, 1, 0) = -11 | open(0, 0, 1) = -13");
-        s.says("what is named first: NOT ahead of STATE", FOUR, "row 0 2: 2 3 2 1 0 | open(0, 0, 0) = 1 | open(0, 0, 1) = NOT");
-        s.says("what is named first: BIG ahead of NOT in by", MANY, "hold(0, 0, 0, 0, 0) | hold(0, 1, 0, 0, 18) | by(0, 3, 0, 0) = BIG");
+        s.says("what is named first: NOT ahead of STATE",
+            FOUR, "row 0 2: 2 3 2 1 0 | open(0, 0, 0) = 1 | open(0, 0, 1) = NOT");
+        s.says("what is named first: BIG ahead of NOT in by",
+            MANY, "hold(0, 0, 0, 0, 0) | hold(0, 1, 0, 0, 18) | by(0, 3, 0, 0) = BIG");
         s.says("in brackets, behind all: NOT in weighs", MANY, "weighs(0, 1) = BIG");
-        s.says("in brackets, behind all: VOID in inAll", "told g2c2;0,1/1,0 | inAll(0, 0, 4) = VOID | inAll(0, 0, 2) = VOID");
+        s.says("in brackets, behind all: VOID in inAll",
+            "told g2c2;0,1/1,0 | inAll(0, 0, 4) = VOID | inAll(0, 0, 2) = VOID");
         s.says("in matter, FULL ahead of a fault", FOUR_MATTERS, "tape x | matter() = FULL | count(1) = 1");
-        s.says("in matter, FULL ahead of an uneven box", FOUR_MATTERS, "tape g2c2;0,0/0,1 | matter() = FULL | count(1) = 12");
+        s.says("in matter, FULL ahead of an uneven box",
+            FOUR_MATTERS, "tape g2c2;0,0/0,1 | matter() = FULL | count(1) = 12");
         s.says("in matter, a fault ahead of an uneven box", "tape g2c2;0,0/0,1; | matter() = -113");
         s.says("in wrong, NOT ahead of BAD for none such", "told g2c2 | wrong(0, 0) = NOT");
         s.says("in wrong, BAD for i below -1 ahead of NOT", "told g2c2 | wrong(0, -2) = BAD");
